@@ -1325,7 +1325,7 @@ public final class UnwindTower {
             return !code.isTooLong;
         }
 
-        /** Lays a NODE whose place is the one of this depth. */
+        /** Lays a NODE whose place is the one of this depth, and leaves that as it is. */
         private void lay(int node, int depth) {
             if (depth < 0 || depth + 1 >= places.length) {
                 code.isTooLong = true;
@@ -1338,7 +1338,6 @@ public final class UnwindTower {
                 case Program.SEQ:
                     inner(depth);
                     lay(at(program.bs, node), depth + 1);
-                    inner(depth);
                     lay(at(program.cs, node), depth + 1);
                     break;
                 case Program.IF:
@@ -1423,7 +1422,6 @@ public final class UnwindTower {
             int toEnd = newLabel();
             emitTo(toEnd, Code.SKIP, 0, node, guard);
             settle(toOther, from);
-            inner(depth);
             lay(other, depth + 1);
             settle(toEnd, from);
         }
@@ -2036,7 +2034,7 @@ public final class UnwindTower {
         }
 
         private void enter(int procedure, int variable, int node) {
-            if (depth >= deep || depth >= frames.length) {
+            if (depth < 0 || depth >= deep || depth >= frames.length) {
                 raise(OVERFLOW, 0, NONE, node);
                 return;
             }

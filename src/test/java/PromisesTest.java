@@ -52,6 +52,10 @@ public final class PromisesTest {
         catcher();
         faultsWith();
         digest();
+        askedAtOnce();
+        partsWithNumberNought();
+        runGives();
+        runSuppressesMany();
         Check.end();
     }
 
@@ -1220,6 +1224,7 @@ public final class PromisesTest {
         Check.same("faultsWith(p, 96)", x.faultsWith(p, 96), 1);
         Check.same("faultsWith(p, 0)", x.faultsWith(p, 0), 1);
         Check.same("faultsWith(0, 64)", x.faultsWith(0, 64), 1);
+        Check.same("faultsWith(p, 64)", x.faultsWith(p, 64), 2);
         Check.same("ofProcedure(p, 0)", x.ofProcedure(p, 0), 0);
         Check.same("many(4)", x.many(4), 1);
         Check.outOfBounds("faultsWith(2, -1)", () -> x.faultsWith(2, NONE));
@@ -1244,5 +1249,108 @@ public final class PromisesTest {
         Check.same("digest() changes nothing", x.digest(), digest);
         x.procedure(0);
         Check.same("digest() with a FAULT", x.digest(), Digest.of(x));
+    }
+
+    // ---- across the promises
+
+    /** Each question as the first one behind what changes its answer. */
+    private static void askedAtOnce() {
+        Check.about("asked at once");
+        UnwindTower x = new UnwindTower();
+        int body = x.node(TRY, print(x, 1), print(x, 2), NONE);
+        x.body(0, body);
+        Check.same("code", x.code(0, 0, 4), 2);
+        x.body(0, print(x, 4));
+        Check.outOfBounds("row", () -> x.row(0, 0, 0));
+        x.body(0, body);
+        Check.same("row", x.row(0, 0, 2), 3);
+        x.prune(true);
+        Check.outOfBounds("row", () -> x.row(0, 0, 0));
+        x.procedure(0);
+        Check.same("fault", x.fault(0, 1), 1);
+        Check.same("faultsWith", x.faultsWith(1, 31), 1);
+        Check.same("ofProcedure", x.ofProcedure(1, 0), 0);
+        x.body(1, x.node(THROW, RING, 0, 0));
+        Check.outOfBounds("fault", () -> x.fault(0, 0));
+        Check.same("run", x.run(), 0);
+    }
+
+    private static void partsWithNumberNought() {
+        Check.about("NODE 0 and MAIN as parts");
+        UnwindTower x = new UnwindTower();
+        int thrown = x.node(THROW, RING, 0, 0);
+        int tried = x.node(TRY, thrown, x.node(THROW, ZERO, 0, 0), NONE);
+        Check.same("ofNode(tried, 5)", x.ofNode(tried, 5), 1 << RING);
+        Check.same("ofNode(tried, 6)", x.ofNode(tried, 6), 1);
+        int using = x.node(USING, 0, x.node(IF, 0, tried, NONE), 0);
+        x.tell(0, 1 << EMPTY);
+        Check.same("ofNode(using, 5)", x.ofNode(using, 5), 1 << RING | 1 << EMPTY);
+        x.body(0, using);
+        Check.same("code(0, 0, 0)", x.code(0, 0, 0), 18);
+        Check.same("code(0, 0, 1)", x.code(0, 0, 1), 0);
+        Check.same("ofProcedure(0, 4)", x.ofProcedure(0, 4), 3);
+        UnwindTower y = new UnwindTower();
+        y.body(0, y.node(SEQ, 0, y.node(BREAK, 0, 0, 0), print(y, 0)));
+        faults(y, at(7, 0, 2, NONE), at(4, 0, 0, NONE));
+        Check.same("ofNode(2, 6)", y.ofNode(2, 6), 1);
+        UnwindTower z = new UnwindTower();
+        z.body(0, z.node(USING, NONE, z.node(THROW, RING, 0, 0), 0));
+        Check.same("ofNode(1, 5)", z.ofNode(1, 5), 1 << RING);
+        code(z, 0, at(10, RING, 0, 0, 2), at(17, 0, 0, 0, 0), at(6, 7, 0, 0, 0), at(11, 0, 0, 0, 0), at(17, 0, 0, 0, 0),
+                at(12, 0, 0, 0, 0), at(19, 0, 0, 0, 0), at(7, 0, 0, 0, 0), at(8, 0, 0, 0, 0));
+        z.limits(100, 3);
+        z.run();
+        ofRun(z, 1, 0, 0, 6, 0, 3, 4, 3, 3);
+    }
+
+    private static void runGives() {
+        Check.about("section 4, what a PROCEDURE gives");
+        UnwindTower x = new UnwindTower();
+        int gives = x.procedure(0);
+        x.body(gives, seq(x, x.node(SET, 1, 9, 0), x.node(RETURN, 0, 101, 0)));
+        int nothing = printing(x, 100);
+        x.body(0, seq(x, x.node(SET, 0, 5, 0), x.node(USING, gives, print(x, 100), gives), print(x, 100),
+                x.node(CALL, 0, gives, 0), x.node(CALL, 1, nothing, 0)));
+        x.run();
+        prints(x, 5, 5, 9);
+        Check.same("held(0)", x.held(0), 9);
+        Check.same("held(1)", x.held(1), 0);
+        Check.same("ofRun(1)", x.ofRun(1), 0);
+        // what throws leaves its VARIABLE as it was
+        int throwing = throwing(x, RING, 1);
+        int tried = x.node(TRY, NONE, x.node(CALL, 0, throwing, 0), x.node(CATCH, ROOT, print(x, 100), NONE));
+        x.body(0, seq(x, x.node(SET, 0, 4, 0), tried));
+        x.run();
+        prints(x, 4);
+    }
+
+    /** Two EXCEPTIONS, turn by turn, each with more than one beneath it. */
+    private static void runSuppressesMany() {
+        Check.about("promise 19, more than one");
+        UnwindTower x = new UnwindTower();
+        int closes = throwing(x, ZERO, 2);
+        int all = NONE;
+        for (int slot = 0; slot < 2; slot++) {
+            int keep = x.node(CATCH, ROOT, x.node(KEEP, slot, 0, 0), NONE);
+            int one = x.node(TRY, NONE, x.node(THROW, ROOT, slot, 0), keep);
+            all = slot == 0 ? one : x.node(SEQ, 0, all, one);
+        }
+        for (int turn = 0; turn < 5; turn++) {
+            int used = x.node(USING, NONE, x.node(THROWN, turn % 2, 0, 0), closes);
+            int tried = x.node(TRY, NONE, used, x.node(CATCH, ROOT, x.node(SET, 0, 0, 0), NONE));
+            all = x.node(SEQ, 0, all, tried);
+        }
+        x.body(0, all);
+        Check.same("run()", x.run(), 0);
+        Check.same("ofRun(8)", x.ofRun(8), 5);
+        Check.same("exception(0, 3)", x.exception(0, 3), 3);
+        Check.same("exception(1, 3)", x.exception(1, 3), 2);
+        int[] first = {2, 4, 6};
+        for (int k = 0; k < 3; k++) {
+            Check.same("suppressed(0, " + k + ")", x.suppressed(0, k), first[k]);
+        }
+        Check.same("suppressed(1, 0)", x.suppressed(1, 0), 3);
+        Check.same("suppressed(1, 1)", x.suppressed(1, 1), 5);
+        Check.same("digest()", x.digest(), Digest.of(x));
     }
 }
