@@ -9,7 +9,7 @@ final class Digest {
         d = d * 31 + v;
     }
 
-    static long of(UnwindTower x) {
+    static long of(Tower x) {
         Digest digest = new Digest();
         digest.addTold(x);
         digest.addRun(x);
@@ -21,7 +21,7 @@ final class Digest {
         return digest.d;
     }
 
-    private void addTold(UnwindTower x) {
+    private void addTold(Tower x) {
         for (int what = 0; what <= 9; what++) {
             add(x.many(what));
         }
@@ -47,7 +47,7 @@ final class Digest {
         }
     }
 
-    private void addProcedure(UnwindTower x, int p) {
+    private void addProcedure(Tower x, int p) {
         for (int what = 0; what <= 5; what++) {
             add(x.ofProcedure(p, what));
         }
@@ -63,7 +63,7 @@ final class Digest {
         }
     }
 
-    private void addRun(UnwindTower x) {
+    private void addRun(Tower x) {
         for (int what = 0; what <= 9; what++) {
             add(x.ofRun(what));
         }

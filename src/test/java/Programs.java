@@ -1,11 +1,11 @@
 import java.util.ArrayList;
 import java.util.List;
 
-/** Makes programs by a row of numbers that a seed gives, at once in an UnwindTower and in a Model. */
+/** Makes programs by a row of numbers that a seed gives, at once in a Tower and in a Model. */
 final class Programs {
     private static final int NONE = -1;
 
-    final UnwindTower tower = new UnwindTower();
+    final Tower tower = new Tower();
     final Model model = new Model();
     private final boolean isSound;
     /** How many of a hundred TRYS have a FINALLY, and of a hundred single statements leave by RETURN or BREAK. */

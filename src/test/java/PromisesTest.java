@@ -1,12 +1,5 @@
 /** The promises of the document, by their numbers, each with what is ordinary, its edges, and what is wrong. */
-public final class PromisesTest {
-    private static final int NONE = -1;
-    private static final int SET = 0, ADD = 1, DIV = 2, PRINT = 3, SEQ = 4, IF = 5, LOOP = 6, BREAK = 7, RETURN = 8,
-            CALL = 9, THROW = 10, TRY = 11, CATCH = 12, USING = 13, AGAIN = 14, WRAP = 15, KEEP = 16, LINK = 17,
-            THROWN = 18;
-    private static final int ROOT = 0, OVERFLOW = 1, RING = 2, ZERO = 3, EMPTY = 4;
-    private static final int MIN = Integer.MIN_VALUE, MAX = Integer.MAX_VALUE;
-
+public final class PromisesTest extends Tests {
     private PromisesTest() {
     }
 
@@ -59,100 +52,11 @@ public final class PromisesTest {
         Check.end();
     }
 
-    // ---- helpers
-
-    private static int print(UnwindTower x, int operand) {
-        return x.node(PRINT, 0, operand, 0);
-    }
-
-    private static int seq(UnwindTower x, int... parts) {
-        int all = parts[parts.length - 1];
-        for (int k = parts.length - 2; k >= 0; k--) {
-            all = x.node(SEQ, 0, parts[k], all);
-        }
-        return all;
-    }
-
-    /** A PROCEDURE that only prints, whose number this is. */
-    private static int printing(UnwindTower x, int number) {
-        int procedure = x.procedure(0);
-        x.body(procedure, print(x, number));
-        return procedure;
-    }
-
-    /** A PROCEDURE that throws an EXCEPTION of this CLASS. */
-    private static int throwing(UnwindTower x, int kind, int number) {
-        int procedure = x.procedure(1 << kind);
-        x.body(procedure, x.node(THROW, kind, number, 0));
-        return procedure;
-    }
-
-    /** Each instruction with its operands, and how many NODES begin with it. */
-    private static void code(UnwindTower x, int procedure, int[]... due) {
-        Check.same("faults", x.many(4), 0);
-        Check.same("length", x.ofProcedure(procedure, 3), due.length);
-        for (int k = 0; k < due.length; k++) {
-            for (int what = 0; what <= 4; what++) {
-                Check.same("code(" + procedure + ", " + k + ", " + what + ")", x.code(procedure, k, what), due[k][what]);
-            }
-        }
-    }
-
-    private static void rows(UnwindTower x, int procedure, int[]... due) {
-        Check.same("rows", x.ofProcedure(procedure, 4), due.length);
-        for (int k = 0; k < due.length; k++) {
-            for (int what = 0; what <= 3; what++) {
-                Check.same("row(" + procedure + ", " + k + ", " + what + ")", x.row(procedure, k, what), due[k][what]);
-            }
-        }
-    }
-
-    private static int[] at(int... numbers) {
-        return numbers;
-    }
-
-    /** which, PROCEDURE, NODE, more of each. */
-    private static void faults(UnwindTower x, int[]... due) {
-        Check.same("many(4)", x.many(4), due.length);
-        for (int k = 0; k < due.length; k++) {
-            for (int what = 0; what <= 3; what++) {
-                Check.same("fault(" + k + ", " + what + ")", x.fault(k, what), due[k][what]);
-            }
-        }
-    }
-
-    private static void ofRun(UnwindTower x, int... due) {
-        for (int what = 0; what < due.length; what++) {
-            Check.same("ofRun(" + what + ")", x.ofRun(what), due[what]);
-        }
-    }
-
-    private static void exception(UnwindTower x, int exception, int... due) {
-        for (int what = 0; what < due.length; what++) {
-            Check.same("exception(" + exception + ", " + what + ")", x.exception(exception, what), due[what]);
-        }
-    }
-
-    private static void trace(UnwindTower x, int exception, int... due) {
-        Check.same("exception(" + exception + ", 4)", x.exception(exception, 4), due.length);
-        for (int k = 0; k < due.length; k++) {
-            Check.same("trace(" + exception + ", " + k + ")", x.trace(exception, k), due[k]);
-        }
-        Check.outOfBounds("trace behind all", () -> x.trace(exception, due.length));
-    }
-
-    private static void prints(UnwindTower x, int... due) {
-        Check.same("ofRun(4)", x.ofRun(4), due.length);
-        for (int k = 0; k < due.length; k++) {
-            Check.same("printed(" + k + ", 0)", x.printed(k, 0), due[k]);
-        }
-    }
-
     // ---- 1
 
     private static void newObject() {
         Check.about("promise 1");
-        UnwindTower x = new UnwindTower();
+        Tower x = new Tower();
         int[] many = {5, 1, 0, 0, 1, 0, 0, 800, 10, 0};
         for (int what = 0; what <= 9; what++) {
             Check.same("many(" + what + ")", x.many(what), many[what]);
@@ -168,7 +72,7 @@ public final class PromisesTest {
 
     private static void kind() {
         Check.about("promise 2");
-        UnwindTower x = new UnwindTower();
+        Tower x = new Tower();
         Check.outOfBounds("kind(5)", () -> x.kind(5, true));
         Check.outOfBounds("kind(-1)", () -> x.kind(NONE, true));
         Check.outOfBounds("kind(MIN)", () -> x.kind(MIN, true));
@@ -185,7 +89,7 @@ public final class PromisesTest {
 
     private static void ofKind() {
         Check.about("promise 3");
-        UnwindTower x = new UnwindTower();
+        Tower x = new Tower();
         int[][] due = {{NONE, 0, 31, 0, 0}, {0, 0, 2, 0, 0}, {0, 0, 4, 0, 0}, {0, 0, 8, 0, 0}, {0, 0, 16, 0, 0}};
         for (int kind = 0; kind < 5; kind++) {
             for (int what = 0; what < 5; what++) {
@@ -220,7 +124,7 @@ public final class PromisesTest {
 
     private static void procedureAndTell() {
         Check.about("promises 4 and 5");
-        UnwindTower x = new UnwindTower();
+        Tower x = new Tower();
         Check.illegalArgument("procedure(-1)", () -> x.procedure(NONE));
         Check.illegalArgument("procedure(MIN)", () -> x.procedure(MIN));
         Check.illegalArgument("procedure(32)", () -> x.procedure(32));
@@ -247,7 +151,7 @@ public final class PromisesTest {
 
     private static void ofProcedure() {
         Check.about("promise 6");
-        UnwindTower x = new UnwindTower();
+        Tower x = new Tower();
         int called = throwing(x, ZERO, 4);
         int tried = x.node(TRY, NONE, x.node(CALL, 0, called, 0), x.node(CATCH, RING, print(x, 0), NONE));
         x.body(0, tried);
@@ -271,7 +175,7 @@ public final class PromisesTest {
 
     // ---- 7
 
-    private static void noNode(UnwindTower x, int sort, int a, int b, int c) {
+    private static void noNode(Tower x, int sort, int a, int b, int c) {
         int before = x.many(2);
         Check.illegalArgument("node(" + sort + ", " + a + ", " + b + ", " + c + ")", () -> x.node(sort, a, b, c));
         Check.same("many(2)", x.many(2), before);
@@ -280,7 +184,7 @@ public final class PromisesTest {
     /** What is not a part, sort by sort. */
     private static void nodeByNode() {
         Check.about("promise 7, what a NODE has");
-        UnwindTower x = new UnwindTower();
+        Tower x = new Tower();
         noNode(x, NONE, 0, 0, 0);
         noNode(x, 19, 0, 0, 0);
         noNode(x, MIN, 0, 0, 0);
@@ -332,7 +236,7 @@ public final class PromisesTest {
 
     private static void nodeParts() {
         Check.about("promise 7, parts");
-        UnwindTower x = new UnwindTower();
+        Tower x = new Tower();
         int p = print(x, 0);
         int q = print(x, 1);
         int r = print(x, 2);
@@ -388,7 +292,7 @@ public final class PromisesTest {
 
     private static void nodeLimits() {
         Check.about("promise 7, 90 NODES");
-        UnwindTower x = new UnwindTower();
+        Tower x = new Tower();
         for (int k = 0; k < 90; k++) {
             Check.same("node", print(x, k), k);
         }
@@ -402,7 +306,7 @@ public final class PromisesTest {
 
     private static void body() {
         Check.about("promise 8");
-        UnwindTower x = new UnwindTower();
+        Tower x = new Tower();
         int p = print(x, 1);
         int q = print(x, 2);
         int caught = x.node(CATCH, 0, print(x, 3), NONE);
@@ -429,7 +333,7 @@ public final class PromisesTest {
 
     private static void ofNodeCan() {
         Check.about("promise 9, what it CAN throw");
-        UnwindTower x = new UnwindTower();
+        Tower x = new Tower();
         x.kind(ZERO, true);
         int told = x.procedure(1 << RING | 1 << EMPTY);
         int other = x.procedure(1 << OVERFLOW);
@@ -463,7 +367,7 @@ public final class PromisesTest {
 
     private static void ofNodeNeverEnds() {
         Check.about("promise 9, NEVER ENDS");
-        UnwindTower x = new UnwindTower();
+        Tower x = new Tower();
         int[] sorts = {BREAK, RETURN, THROW, AGAIN, WRAP, THROWN};
         for (int sort : sorts) {
             Check.same("of sort " + sort, x.ofNode(x.node(sort, 0, 0, 0), 6), 1);
@@ -493,7 +397,7 @@ public final class PromisesTest {
 
     private static void ofNodeRest() {
         Check.about("promise 9, the rest");
-        UnwindTower x = new UnwindTower();
+        Tower x = new Tower();
         int set = x.node(SET, 3, 3, 0);
         int add = x.node(ADD, 3, -1, 0);
         int looped = x.node(LOOP, 3, add, 0);
@@ -528,7 +432,7 @@ public final class PromisesTest {
 
     private static void faultOrder() {
         Check.about("promise 10, their order");
-        UnwindTower x = new UnwindTower();
+        Tower x = new Tower();
         x.kind(ROOT, true);
         x.kind(5, false);
         x.procedure(0);
@@ -554,7 +458,7 @@ public final class PromisesTest {
 
     private static void faultsOfCatches() {
         Check.about("promise 10, CATCHES");
-        UnwindTower x = new UnwindTower();
+        Tower x = new Tower();
         x.kind(ROOT, true);
         x.kind(5, false);
         x.kind(5, false);
@@ -576,7 +480,7 @@ public final class PromisesTest {
 
     private static void faultsOfPlaces() {
         Check.about("promise 10, BREAK and what is within a CATCH");
-        UnwindTower x = new UnwindTower();
+        Tower x = new Tower();
         int[] sorts = {AGAIN, WRAP, KEEP, LINK};
         for (int sort : sorts) {
             int inB = x.node(sort, 0, 0, 0);
@@ -601,7 +505,7 @@ public final class PromisesTest {
 
     private static void faultsUntold() {
         Check.about("promise 10, what is not TOLD");
-        UnwindTower x = new UnwindTower();
+        Tower x = new Tower();
         x.kind(ROOT, true);
         x.kind(5, false);
         int called = x.procedure(1 << 6 | 1 << ZERO);
@@ -619,18 +523,9 @@ public final class PromisesTest {
         faults(x, at(3, 0, NONE, 5));
     }
 
-    /** A TRY with a FINALLY around one more than so many others: twice as long, and 4. */
-    private static int doubled(UnwindTower x, int times) {
-        int inner = print(x, 0);
-        for (int k = 0; k < times; k++) {
-            inner = x.node(TRY, inner, print(x, 1), NONE);
-        }
-        return inner;
-    }
-
     private static void faultTooLong() {
         Check.about("promise 10, too long");
-        UnwindTower x = new UnwindTower();
+        Tower x = new Tower();
         int[] parts = new int[13];
         for (int k = 0; k < 5; k++) {
             parts[k] = doubled(x, 5 - k);
@@ -663,7 +558,7 @@ public final class PromisesTest {
 
     private static void prune() {
         Check.about("promise 11");
-        UnwindTower x = new UnwindTower();
+        Tower x = new Tower();
         int b = seq(x, print(x, 1), x.node(IF, 0, x.node(RETURN, 0, 1, 0), NONE), x.node(DIV, 0, 1, 0));
         x.body(0, x.node(TRY, NONE, b, x.node(CATCH, ROOT, print(x, 2), NONE)));
         int[] first = at(0, 3, 6, 0);
@@ -685,14 +580,14 @@ public final class PromisesTest {
         int[][] nodes = {{SET, 0, 0, 0}, {ADD, 0, 0, 0}, {DIV, 0, 1, 1}, {PRINT, 0, 0, 0}, {CALL, 0, 0, 1},
                 {THROW, 0, 0, 1}, {THROWN, 0, 0, 1}, {AGAIN, 0, 0, 1}, {WRAP, 0, 0, 1}, {KEEP, 0, 0, 0}, {LINK, 0, 0, 1}};
         for (int[] one : nodes) {
-            UnwindTower x = new UnwindTower();
+            Tower x = new Tower();
             int node = x.node(one[0], one[1], one[2], 0);
             int inner = x.node(TRY, NONE, node, x.node(CATCH, ROOT, print(x, 0), NONE));
             x.body(0, x.node(TRY, NONE, print(x, 0), x.node(CATCH, ROOT, inner, NONE)));
             x.prune(true);
             Check.same("ROWS around a " + one[0], x.ofProcedure(0, 4), one[3]);
         }
-        UnwindTower x = new UnwindTower();
+        Tower x = new Tower();
         int p = printing(x, 0);
         int opened = x.node(USING, p, print(x, 0), NONE);
         x.body(0, x.node(TRY, NONE, opened, x.node(CATCH, ROOT, print(x, 0), NONE)));
@@ -702,7 +597,7 @@ public final class PromisesTest {
 
     private static void codeOfSingles() {
         Check.about("promise 12, single instructions");
-        UnwindTower x = new UnwindTower();
+        Tower x = new Tower();
         int p = printing(x, 5);
         x.body(0, seq(x, x.node(SET, 1, -99, 0), x.node(ADD, 2, 103, 0), x.node(DIV, 3, 99, 0), print(x, 109),
                 x.node(CALL, 4, p, 0), x.node(THROW, EMPTY, 102, 0)));
@@ -717,7 +612,7 @@ public final class PromisesTest {
 
     private static void codeOfChoices() {
         Check.about("promise 12, IF and LOOP");
-        UnwindTower x = new UnwindTower();
+        Tower x = new Tower();
         x.body(0, x.node(IF, 100, print(x, 1), print(x, 2)));
         code(x, 0, at(5, 3, 100, 0, 1), at(4, 1, 0, 0, 1), at(6, 4, 0, 0, 0), at(4, 2, 0, 0, 1), at(7, 0, 0, 0, 0),
                 at(8, 0, 0, 0, 0));
@@ -730,7 +625,7 @@ public final class PromisesTest {
 
     private static void codeOfWaysOut() {
         Check.about("promise 12, the WAY OUT");
-        UnwindTower x = new UnwindTower();
+        Tower x = new Tower();
         int out = x.node(TRY, print(x, 7), x.node(BREAK, 0, 0, 0), NONE);
         x.body(0, x.node(LOOP, 0, out, 0));
         code(x, 0, at(20, 0, 0, 0, 1), at(5, 10, 100, 0, 0), at(4, 7, 0, 0, 3), at(6, 10, 0, 0, 0), at(4, 7, 0, 0, 1),
@@ -748,7 +643,7 @@ public final class PromisesTest {
 
     private static void codeOfCatches() {
         Check.about("promise 12, CATCHES within each other");
-        UnwindTower x = new UnwindTower();
+        Tower x = new Tower();
         int handled = seq(x, x.node(KEEP, 1, 0, 0), x.node(LINK, 0, 0, 0), x.node(WRAP, RING, 9, 0));
         int inner = x.node(TRY, print(x, 1), x.node(AGAIN, 0, 0, 0), x.node(CATCH, ROOT, handled, NONE));
         x.body(0, x.node(TRY, NONE, x.node(THROW, ROOT, 5, 0), x.node(CATCH, ROOT, inner, NONE)));
@@ -774,7 +669,7 @@ public final class PromisesTest {
 
     private static void codeOfUsing() {
         Check.about("promises 12 and 13, USING");
-        UnwindTower x = new UnwindTower();
+        Tower x = new Tower();
         int opens = printing(x, 1);
         int closes = printing(x, 2);
         x.body(0, x.node(USING, opens, print(x, 3), closes));
@@ -798,7 +693,7 @@ public final class PromisesTest {
 
     private static void rowsAndGaps() {
         Check.about("promise 13, GAPS");
-        UnwindTower x = new UnwindTower();
+        Tower x = new Tower();
         int choice = x.node(IF, 100, x.node(RETURN, 0, 1, 0), print(x, 2));
         x.body(0, x.node(TRY, NONE, choice, x.node(CATCH, ROOT, print(x, 3), NONE)));
         code(x, 0, at(5, 4, 100, 0, 2), at(7, 1, 0, 0, 1), at(8, 0, 0, 0, 0), at(6, 5, 0, 0, 0), at(4, 2, 0, 0, 1),
@@ -819,7 +714,7 @@ public final class PromisesTest {
 
     private static void codeAndRowWrong() {
         Check.about("promises 12 and 13, what is wrong");
-        UnwindTower x = new UnwindTower();
+        Tower x = new Tower();
         Check.outOfBounds("code with a FAULT", () -> x.code(0, 0, 9));
         Check.outOfBounds("row with a FAULT", () -> x.row(0, 0, 9));
         x.body(0, x.node(TRY, print(x, 1), print(x, 2), NONE));
@@ -843,7 +738,7 @@ public final class PromisesTest {
 
     private static void limits() {
         Check.about("promise 14");
-        UnwindTower x = new UnwindTower();
+        Tower x = new Tower();
         Check.same("limits(3000, 30)", x.limits(3000, 30), 800);
         Check.same("limits(1, 1)", x.limits(1, 1), 3000);
         Check.illegalArgument("limits(0, 1)", () -> x.limits(0, 1));
@@ -857,7 +752,7 @@ public final class PromisesTest {
 
     private static void runAndOfRun() {
         Check.about("promises 15 and 16");
-        UnwindTower x = new UnwindTower();
+        Tower x = new Tower();
         ofRun(x, 0, 0, 0, 0, 0, 0, 0, 0, 0, 0);
         Check.illegalState("run() without a BODY", x::run);
         Check.same("ofRun(9)", x.ofRun(9), 0);
@@ -882,7 +777,7 @@ public final class PromisesTest {
 
     private static void runNumbers() {
         Check.about("section 4, numbers");
-        UnwindTower x = new UnwindTower();
+        Tower x = new Tower();
         int doubling = seq(x, x.node(ADD, 1, -1, 0), x.node(ADD, 0, 100, 0));
         int body = seq(x, x.node(SET, 0, 99, 0), x.node(SET, 1, 25, 0), x.node(LOOP, 1, doubling, 0), print(x, 100),
                 x.node(DIV, 0, 7, 0), print(x, 100), x.node(DIV, 0, -2, 0), print(x, 100));
@@ -904,7 +799,7 @@ public final class PromisesTest {
 
     private static void runCutOff() {
         Check.about("section 4, STEPS");
-        UnwindTower x = new UnwindTower();
+        Tower x = new Tower();
         int last = print(x, 3);
         int thrown = x.node(THROW, ROOT, 1, 0);
         int caught = x.node(CATCH, ROOT, print(x, 2), NONE);
@@ -924,7 +819,7 @@ public final class PromisesTest {
 
     private static void runOverflow() {
         Check.about("section 4, OVERFLOW");
-        UnwindTower x = new UnwindTower();
+        Tower x = new Tower();
         int p = x.procedure(0);
         int deeper = x.node(CALL, 1, p, 0);
         x.body(p, deeper);
@@ -956,7 +851,7 @@ public final class PromisesTest {
 
     private static void runWays() {
         Check.about("section 4, ways through FINALLY");
-        UnwindTower x = new UnwindTower();
+        Tower x = new Tower();
         // RETURN reckons its number ahead of what is run on its way
         x.body(0, seq(x, x.node(SET, 0, 5, 0), x.node(TRY, x.node(SET, 0, 9, 0), x.node(RETURN, 0, 100, 0), NONE)));
         x.run();
@@ -989,7 +884,7 @@ public final class PromisesTest {
 
     private static void runUsing() {
         Check.about("section 4, USING");
-        UnwindTower x = new UnwindTower();
+        Tower x = new Tower();
         int opens = printing(x, 1);
         int closes = throwing(x, ZERO, 2);
         int used = x.node(USING, opens, x.node(THROW, RING, 3, 0), closes);
@@ -1030,7 +925,7 @@ public final class PromisesTest {
 
     private static void runSlots() {
         Check.about("section 4, SLOTS");
-        UnwindTower x = new UnwindTower();
+        Tower x = new Tower();
         int thrown = x.node(THROWN, 2, 0, 0);
         x.body(0, thrown);
         Check.same("run()", x.run(), 1);
@@ -1062,7 +957,7 @@ public final class PromisesTest {
 
     private static void kept() {
         Check.about("promises 17, 18, 20");
-        UnwindTower x = new UnwindTower();
+        Tower x = new Tower();
         int print = print(x, 100);
         int tried = x.node(TRY, NONE, x.node(THROW, ROOT, 100, 0), x.node(CATCH, ROOT, print, NONE));
         int looped = x.node(LOOP, 0, x.node(SEQ, 0, x.node(ADD, 0, -1, 0), tried), 0);
@@ -1100,7 +995,7 @@ public final class PromisesTest {
 
     private static void held() {
         Check.about("promise 21");
-        UnwindTower x = new UnwindTower();
+        Tower x = new Tower();
         for (int which = 0; which <= 13; which++) {
             Check.same("held(" + which + ")", x.held(which), which < 10 ? 0 : NONE);
         }
@@ -1122,7 +1017,7 @@ public final class PromisesTest {
 
     private static void meanPrinted() {
         Check.about("promise 22");
-        UnwindTower x = new UnwindTower();
+        Tower x = new Tower();
         Check.same("meanPrinted()", x.meanPrinted(), 0.0);
         x.body(0, seq(x, print(x, 1), print(x, 2), print(x, -8)));
         x.run();
@@ -1139,7 +1034,7 @@ public final class PromisesTest {
 
     private static void many() {
         Check.about("promise 23");
-        UnwindTower x = new UnwindTower();
+        Tower x = new Tower();
         x.kind(ROOT, false);
         int p = printing(x, 1);
         x.body(0, x.node(TRY, NONE, x.node(CALL, 0, p, 0), x.node(CATCH, ROOT, print(x, 2), NONE)));
@@ -1158,7 +1053,7 @@ public final class PromisesTest {
 
     private static void wouldRun() {
         Check.about("promise 24");
-        UnwindTower x = new UnwindTower();
+        Tower x = new Tower();
         Check.illegalArgument("wouldRun(0, 1, 0)", () -> x.wouldRun(0, 1, 0));
         Check.illegalArgument("wouldRun(3001, 1, 0)", () -> x.wouldRun(3001, 1, 0));
         Check.illegalArgument("wouldRun(1, 0, 0)", () -> x.wouldRun(1, 0, 0));
@@ -1185,7 +1080,7 @@ public final class PromisesTest {
 
     private static void catcher() {
         Check.about("promise 25");
-        UnwindTower x = new UnwindTower();
+        Tower x = new Tower();
         x.kind(ZERO, false);
         int thrown = x.node(THROW, 5, 0, 0);
         int inLast = print(x, 1);
@@ -1212,7 +1107,7 @@ public final class PromisesTest {
 
     private static void faultsWith() {
         Check.about("promise 26");
-        UnwindTower x = new UnwindTower();
+        Tower x = new Tower();
         x.kind(ROOT, true);
         x.kind(ROOT, true);
         int p = x.procedure(0);
@@ -1238,7 +1133,7 @@ public final class PromisesTest {
 
     private static void digest() {
         Check.about("promise 27");
-        UnwindTower x = new UnwindTower();
+        Tower x = new Tower();
         Check.same("digest() of a new object", x.digest(), Digest.of(x));
         int closes = throwing(x, ZERO, 2);
         x.body(0, x.node(USING, NONE, seq(x, print(x, 3), x.node(THROW, RING, 3, 0)), closes));
@@ -1256,7 +1151,7 @@ public final class PromisesTest {
     /** Each question as the first one behind what changes its answer. */
     private static void askedAtOnce() {
         Check.about("asked at once");
-        UnwindTower x = new UnwindTower();
+        Tower x = new Tower();
         int body = x.node(TRY, print(x, 1), print(x, 2), NONE);
         x.body(0, body);
         Check.same("code", x.code(0, 0, 4), 2);
@@ -1277,7 +1172,7 @@ public final class PromisesTest {
 
     private static void partsWithNumberNought() {
         Check.about("NODE 0 and MAIN as parts");
-        UnwindTower x = new UnwindTower();
+        Tower x = new Tower();
         int thrown = x.node(THROW, RING, 0, 0);
         int tried = x.node(TRY, thrown, x.node(THROW, ZERO, 0, 0), NONE);
         Check.same("ofNode(tried, 5)", x.ofNode(tried, 5), 1 << RING);
@@ -1289,11 +1184,11 @@ public final class PromisesTest {
         Check.same("code(0, 0, 0)", x.code(0, 0, 0), 18);
         Check.same("code(0, 0, 1)", x.code(0, 0, 1), 0);
         Check.same("ofProcedure(0, 4)", x.ofProcedure(0, 4), 3);
-        UnwindTower y = new UnwindTower();
+        Tower y = new Tower();
         y.body(0, y.node(SEQ, 0, y.node(BREAK, 0, 0, 0), print(y, 0)));
         faults(y, at(7, 0, 2, NONE), at(4, 0, 0, NONE));
         Check.same("ofNode(2, 6)", y.ofNode(2, 6), 1);
-        UnwindTower z = new UnwindTower();
+        Tower z = new Tower();
         z.body(0, z.node(USING, NONE, z.node(THROW, RING, 0, 0), 0));
         Check.same("ofNode(1, 5)", z.ofNode(1, 5), 1 << RING);
         code(z, 0, at(10, RING, 0, 0, 2), at(17, 0, 0, 0, 0), at(6, 7, 0, 0, 0), at(11, 0, 0, 0, 0), at(17, 0, 0, 0, 0),
@@ -1305,7 +1200,7 @@ public final class PromisesTest {
 
     private static void runGives() {
         Check.about("section 4, what a PROCEDURE gives");
-        UnwindTower x = new UnwindTower();
+        Tower x = new Tower();
         int gives = x.procedure(0);
         x.body(gives, seq(x, x.node(SET, 1, 9, 0), x.node(RETURN, 0, 101, 0)));
         int nothing = printing(x, 100);
@@ -1327,7 +1222,7 @@ public final class PromisesTest {
     /** Two EXCEPTIONS, turn by turn, each with more than one beneath it. */
     private static void runSuppressesMany() {
         Check.about("promise 19, more than one");
-        UnwindTower x = new UnwindTower();
+        Tower x = new Tower();
         int closes = throwing(x, ZERO, 2);
         int all = NONE;
         for (int slot = 0; slot < 2; slot++) {

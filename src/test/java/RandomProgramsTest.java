@@ -28,7 +28,7 @@ public final class RandomProgramsTest {
     }
 
     private static void compare(Programs programs) {
-        UnwindTower x = programs.tower;
+        Tower x = programs.tower;
         Model m = programs.model;
         compareNodes(x, m);
         List<int[]> faults = m.faults();
@@ -52,7 +52,7 @@ public final class RandomProgramsTest {
         Check.same("digest()", x.digest(), Digest.of(x));
     }
 
-    private static void compareNodes(UnwindTower x, Model m) {
+    private static void compareNodes(Tower x, Model m) {
         int inNone = 0;
         int[] catches = new int[m.parents.size()];
         for (int n = 0; n < m.nodes.size(); n++) {
@@ -84,7 +84,7 @@ public final class RandomProgramsTest {
     }
 
     private static void compareFaults(Programs programs, List<int[]> faults) {
-        UnwindTower x = programs.tower;
+        Tower x = programs.tower;
         Model m = programs.model;
         Check.same("many(4)", x.many(4), faults.size());
         for (int k = 0; k < faults.size(); k++) {
@@ -103,7 +103,7 @@ public final class RandomProgramsTest {
         Check.same("many(4) behind it", x.many(4), faults.size());
     }
 
-    private static void compareCode(UnwindTower x, Model m, boolean isSound) {
+    private static void compareCode(Tower x, Model m, boolean isSound) {
         int length = 0;
         int rows = 0;
         for (int p = 0; p < m.bodies.size(); p++) {
@@ -126,7 +126,7 @@ public final class RandomProgramsTest {
         Check.same("many(6)", x.many(6), rows);
     }
 
-    private static void compareCode(UnwindTower x, int p, Model.Layer layer) {
+    private static void compareCode(Tower x, int p, Model.Layer layer) {
         Check.same("ofProcedure(" + p + ", 3)", x.ofProcedure(p, 3), layer.code.size());
         Check.same("ofProcedure(" + p + ", 4)", x.ofProcedure(p, 4), layer.rows.size());
         for (int k = 0; k < layer.code.size(); k++) {
@@ -144,12 +144,12 @@ public final class RandomProgramsTest {
         Check.outOfBounds("row behind all", () -> x.row(p, layer.rows.size(), 0));
     }
 
-    private static void compareRun(UnwindTower x, Model.Run due) {
+    private static void compareRun(Tower x, Model.Run due) {
         x.limits(due.most, due.deep);
         compareRun(x, due, due.most, due.deep);
     }
 
-    private static void compareRun(UnwindTower x, Model.Run due, int most, int deep) {
+    private static void compareRun(Tower x, Model.Run due, int most, int deep) {
         for (int what = 0; what <= 8; what++) {
             Check.same("wouldRun(" + most + ", " + deep + ", " + what + ")", x.wouldRun(most, deep, what), due.told(what));
         }
@@ -176,7 +176,7 @@ public final class RandomProgramsTest {
         }
     }
 
-    private static void comparePrints(UnwindTower x, Model.Run due) {
+    private static void comparePrints(Tower x, Model.Run due) {
         long sum = 0;
         for (int k = 0; k < due.prints.size(); k++) {
             sum += due.prints.get(k)[0];
@@ -189,7 +189,7 @@ public final class RandomProgramsTest {
         Check.same("meanPrinted()", x.meanPrinted(), due.prints.isEmpty() ? 0.0 : (double) sum / due.prints.size());
     }
 
-    private static void compareExceptions(UnwindTower x, Model.Run due) {
+    private static void compareExceptions(Tower x, Model.Run due) {
         int[] ofKind = new int[13];
         for (int e = 0; e < due.made.size(); e++) {
             Model.Made one = due.made.get(e);
@@ -205,7 +205,7 @@ public final class RandomProgramsTest {
         }
     }
 
-    private static void compareException(UnwindTower x, int e, Model.Made one) {
+    private static void compareException(Tower x, int e, Model.Made one) {
         int[] due = {one.kind, one.number, one.cause, one.suppressed.size(), one.trace.size()};
         for (int what = 0; what < due.length; what++) {
             Check.same("exception(" + e + ", " + what + ")", x.exception(e, what), due[what]);

@@ -23,7 +23,7 @@ public final class WildCallsTest {
         int[] answered = new int[CALLS_OF.length];
         for (int k = 0; k < OBJECTS; k++) {
             Check.about("object " + k);
-            UnwindTower x = k % 2 == 0 ? new UnwindTower() : ran(k);
+            Tower x = k % 2 == 0 ? new Tower() : ran(k);
             for (int call = 0; call < CALLS; call++) {
                 one(x, threw, answered, k % 2 == 0 ? 50 : 3);
             }
@@ -36,7 +36,7 @@ public final class WildCallsTest {
         Check.end();
     }
 
-    private static UnwindTower ran(int seed) {
+    private static Tower ran(int seed) {
         Programs programs = new Programs(seed, true);
         programs.make();
         if (programs.tower.many(4) == 0) {
@@ -46,7 +46,7 @@ public final class WildCallsTest {
     }
 
     /** nodes: how many of a hundred calls are to be node(). */
-    private static void one(UnwindTower x, int[] threw, int[] answered, int nodes) {
+    private static void one(Tower x, int[] threw, int[] answered, int nodes) {
         int which = below(100) < nodes ? 5 : below(CALLS_OF.length);
         int[] n = {number(), number(), number(), number()};
         if (which == 5 && below(10) < 9) {
@@ -70,7 +70,7 @@ public final class WildCallsTest {
         }
     }
 
-    private static long call(UnwindTower x, int which, int[] n) {
+    private static long call(Tower x, int which, int[] n) {
         switch (which) {
             case 0: return x.kind(n[0], n[1] > 0);
             case 1: return x.ofKind(n[0], n[1]);
@@ -117,7 +117,7 @@ public final class WildCallsTest {
         }
     }
 
-    private static int[] likelyNode(UnwindTower x) {
+    private static int[] likelyNode(Tower x) {
         int sort = below(19);
         int some = Math.max(1, x.many(2));
         int p = below(some);
@@ -156,7 +156,7 @@ public final class WildCallsTest {
         int[] kinds = {5, 6, 11, 13, 4};
         for (int sort : kinds) {
             Check.about("nested, of sort " + sort);
-            UnwindTower x = new UnwindTower();
+            Tower x = new Tower();
             x.procedure(0);
             x.body(1, x.node(0, 0, 1, 0));
             int inner = x.node(8, 0, 3, 0);
@@ -171,7 +171,7 @@ public final class WildCallsTest {
         deepest();
     }
 
-    private static int around(UnwindTower x, int sort, int inner) {
+    private static int around(Tower x, int sort, int inner) {
         switch (sort) {
             case 5:
                 return x.node(5, 1, inner, -1);
@@ -189,7 +189,7 @@ public final class WildCallsTest {
     /** 30 PROCEDURES within each other, each of them within 40 USINGS that only open. */
     private static void deepest() {
         Check.about("deepest");
-        UnwindTower x = new UnwindTower();
+        Tower x = new Tower();
         x.procedure(0);
         x.body(1, x.node(0, 0, 1, 0));
         int inner = x.node(9, 0, 0, 0);
