@@ -52,15 +52,19 @@ public final class EdgesOfAnswersTest extends Tests {
         return seq(x, x.node(SET, 9, times, 0), x.node(LOOP, 9, x.node(SEQ, 0, x.node(ADD, 9, -1, 0), b), 0));
     }
 
+    /** The PRINT is the NODE 1. */
     private static Tower printing(int times) {
         Tower x = new Tower();
+        x.node(SET, 1, 1, 0);
         x.body(0, turns(x, times, print(x, 109)));
         x.run();
         return x;
     }
 
+    /** The THROW is the NODE 1. */
     private static Tower throwing(int times) {
         Tower x = new Tower();
+        x.node(SET, 1, 1, 0);
         x.body(0, turns(x, times, caught(x, x.node(THROW, ROOT, 109, 0), ROOT, x.node(SET, 1, 1, 0))));
         x.run();
         return x;
@@ -223,7 +227,7 @@ public final class EdgesOfAnswersTest extends Tests {
             for (int k = 0; k < kept; k++) {
                 Check.same("printed(" + k + ", 0)", x.printed(k, 0), times - 1 - k);
                 Check.same("printed(" + k + ", 1)", x.printed(k, 1), 6 + 3 * k);
-                Check.same("printed(" + k + ", 2)", x.printed(k, 2), 0);
+                Check.same("printed(" + k + ", 2)", x.printed(k, 2), 1);
             }
             int all = times;
             Supplier<Tower> made = () -> printing(all);
@@ -267,7 +271,7 @@ public final class EdgesOfAnswersTest extends Tests {
             outOfBounds("suppressed(" + kept + ", 0) of " + times, made, y -> y.suppressed(kept, 0));
             outOfBounds("trace(" + kept + ", 0) of " + times, made, y -> y.trace(kept, 0));
             outOfBounds("trace(" + (kept - 1) + ", 1) of " + times, made, y -> y.trace(kept - 1, 1));
-            Check.same("trace(" + (kept - 1) + ", 0)", x.trace(kept - 1, 0), 0);
+            Check.same("trace(" + (kept - 1) + ", 0)", x.trace(kept - 1, 0), 1);
         }
     }
 
@@ -308,6 +312,12 @@ public final class EdgesOfAnswersTest extends Tests {
         indexes("suppressed(e, 0)", () -> beneath(1), 0, 0, (x, e) -> x.suppressed(e, 0));
         outOfBounds("suppressed(0, 0) ahead of all runs", NEW, x -> x.suppressed(0, 0));
         outOfBounds("suppressed(1, 0), that was SUPPRESSED", RAN, x -> x.suppressed(1, 0));
+        Check.about("promise 19: of the latest run");
+        Tower x = beneath(3);
+        x.body(0, x.node(THROW, EMPTY, 1, 0));
+        x.run();
+        exception(x, 0, EMPTY, 1, NONE, 0, 1);
+        Check.outOfBounds("suppressed(0, 0) of a later run", () -> x.suppressed(0, 0));
     }
 
     private static void suppressedBehind40() {
@@ -711,14 +721,28 @@ public final class EdgesOfAnswersTest extends Tests {
             Check.same("digest()", one.digest(), Digest.of(one));
         }
         Check.same("whether a run counts", RAN.get().digest() == FAULTY.get().digest(), false);
+        Check.about("promise 27: catcher() of 0 and of the last CLASS");
+        Tower last = new Tower();
+        last.kind(ROOT, false);
+        last.kind(ROOT, false);
+        int second = last.node(CATCH, 5, print(last, 1), NONE);
+        last.body(0, last.node(TRY, NONE, print(last, 2), last.node(CATCH, 6, print(last, 3), second)));
+        Check.same("digest()", last.digest(), Digest.of(last));
         Check.about("promise 27: of wouldRun() of 150, 4");
-        int[][] longer = {{48, 0}, {49, 0}, {50, 0}, {1, 3}, {1, 4}, {1, 5}};
-        for (int[] one : longer) {
+        for (int more = 0; more <= 2; more++) {
+            Tower y = new Tower();
+            int set = y.node(SET, 1, 1, 0);
+            int parts = more == 0 ? set : y.node(IF, 1, set, NONE);
+            y.body(0, y.node(SEQ, 0, turns(y, 48, y.node(SET, 3, 1, 0)), more == 2 ? y.node(IF, 1, parts, NONE) : parts));
+            Check.same("STEPS", y.wouldRun(3000, 1, 3), 149 + more);
+            Check.same("digest()", y.digest(), Digest.of(y));
+        }
+        for (int deeper = 1; deeper <= 3; deeper++) {
             Tower y = new Tower();
             int p = y.procedure(0);
             y.body(p, y.node(IF, 101, y.node(SEQ, 0, y.node(ADD, 1, -1, 0), y.node(CALL, 2, p, 0)), NONE));
-            int looped = turns(y, one[0], y.node(SET, 3, 1, 0));
-            y.body(0, seq(y, looped, y.node(SET, 1, one[1], 0), y.node(CALL, 2, p, 0)));
+            y.body(0, seq(y, y.node(SET, 1, deeper, 0), y.node(CALL, 2, p, 0)));
+            Check.same("PROCEDURES in each other", y.wouldRun(3000, 30, 7), 2 + deeper);
             Check.same("digest()", y.digest(), Digest.of(y));
         }
     }

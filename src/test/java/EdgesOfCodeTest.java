@@ -28,10 +28,15 @@ public final class EdgesOfCodeTest extends Tests {
         wayOutOfUsing();
         finallysWithinEachOther();
         catchesWithinEachOther();
+        placesOfCaughts();
+        caughtsOnAWayOut();
+        deepest();
         begins();
+        manyBegins();
         rowsFromAndTo();
         firstRowThatFits();
         rowsInOrder();
+        manyRows();
         emptyPieces();
         prune();
         pruneByInstruction();
@@ -386,6 +391,93 @@ public final class EdgesOfCodeTest extends Tests {
         Check.same("CAUGHTS", found, 6);
     }
 
+    private static void placesOfCaughts() {
+        Check.about("section 5: AGAIN, WRAP, KEEP and LINK have the d of the CAUGHT of their CATCH; THROWN has none");
+        Tower x = new Tower();
+        int choice = x.node(IF, 100, x.node(WRAP, RING, 9, 0), x.node(AGAIN, 0, 0, 0));
+        int handled = seq(x, x.node(KEEP, 1, 0, 0), x.node(LINK, 2, 0, 0), choice);
+        int inner = caught(x, print(x, 1), ROOT, handled);
+        x.body(0, caught(x, print(x, 0), ROOT, inner));
+        code(x, 0, at(4, 0, 0, 0, 2), at(6, 12, 0, 0, 0), at(11, 0, 0, 0, 1), at(4, 1, 0, 0, 2), at(6, 12, 0, 0, 0),
+                at(11, 1, 0, 0, 1), at(14, 1, 1, 0, 2), at(15, 2, 1, 0, 2), at(5, 11, 100, 0, 1), at(13, RING, 9, 1, 1),
+                at(6, 12, 0, 0, 0), at(12, 1, 0, 0, 1), HOLD, GIVE);
+        rows(x, 0, at(3, 4, 5, ROOT), at(0, 1, 2, ROOT));
+        // behind an inner CATCH, and in b of an inner TRY, it is that of the outer one again
+        int behind = x.node(SEQ, 0, caught(x, print(x, 1), ROOT, x.node(KEEP, 0, 0, 0)), x.node(AGAIN, 0, 0, 0));
+        x.body(0, caught(x, print(x, 0), ROOT, behind));
+        code(x, 0, at(4, 0, 0, 0, 2), at(6, 8, 0, 0, 0), at(11, 0, 0, 0, 1), at(4, 1, 0, 0, 3), at(6, 7, 0, 0, 0),
+                at(11, 1, 0, 0, 1), at(14, 0, 1, 0, 1), at(12, 0, 0, 0, 1), HOLD, GIVE);
+        int within = caught(x, x.node(LINK, 3, 0, 0), ROOT, x.node(WRAP, ROOT, 1, 0));
+        x.body(0, caught(x, print(x, 0), ROOT, within));
+        code(x, 0, at(4, 0, 0, 0, 2), at(6, 7, 0, 0, 0), at(11, 0, 0, 0, 1), at(15, 3, 0, 0, 2), at(6, 7, 0, 0, 0),
+                at(11, 1, 0, 0, 1), at(13, 0, 1, 1, 1), HOLD, GIVE);
+        x.body(0, x.node(THROWN, 3, 0, 0));
+        code(x, 0, at(16, 3, 0, 0, 1), HOLD, GIVE);
+    }
+
+    private static void caughtsOnAWayOut() {
+        Check.about("section 5: a FINALLY that is laid on a WAY OUT stands within all in which the BREAK or RETURN does");
+        Tower x = new Tower();
+        int again = caught(x, print(x, 2), ROOT, x.node(AGAIN, 0, 0, 0));
+        x.body(0, x.node(TRY, again, print(x, 3), x.node(CATCH, ZERO, returned(x, 5), NONE)));
+        code(x, 0, at(4, 3, 0, 0, 2), at(4, 2, 0, 0, 2), at(6, 5, 0, 0, 0), at(11, 0, 0, 0, 1), at(12, 0, 0, 0, 1),
+                at(6, 24, 0, 0, 0), at(11, 0, 0, 0, 1), at(7, 5, 0, 0, 1), at(4, 2, 0, 0, 2), at(6, 12, 0, 0, 0),
+                at(11, 1, 0, 0, 1), at(12, 1, 0, 0, 1), GIVE, at(4, 2, 0, 0, 2), at(6, 17, 0, 0, 0), at(11, 0, 0, 0, 1),
+                at(12, 0, 0, 0, 1), at(6, 24, 0, 0, 0), at(11, 0, 0, 0, 0), at(4, 2, 0, 0, 2), at(6, 23, 0, 0, 0),
+                at(11, 1, 0, 0, 1), at(12, 1, 0, 0, 1), at(12, 0, 0, 0, 0), HOLD, GIVE);
+        rows(x, 0, at(1, 2, 3, ROOT), at(8, 9, 10, ROOT), at(13, 14, 15, ROOT), at(19, 20, 21, ROOT), at(0, 1, 6, ZERO),
+                at(0, 1, 18, NONE), at(6, 8, 18, NONE));
+    }
+
+    private static void deepest() {
+        Check.about("section 2: 90 NODES, each a part of the next one");
+        Tower x = new Tower();
+        int all = print(x, 7);
+        for (int k = 0; k < 89; k++) {
+            all = x.node(IF, 1, all, NONE);
+        }
+        x.body(0, all);
+        faults(x);
+        Check.same("IF, ofProcedure(0, 3)", x.ofProcedure(0, 3), 89 + 3);
+        Check.same("where it goes", x.code(0, 0, 1), 90);
+        x.run();
+        ofRun(x, 0, 0, NONE, 90, 1, 1, 0, 1, 0);
+        Tower y = new Tower();
+        all = y.node(BREAK, 0, 0, 0);
+        for (int k = 0; k < 89; k++) {
+            all = y.node(LOOP, 0, all, 0);
+        }
+        y.body(0, all);
+        faults(y);
+        Check.same("LOOP, ofProcedure(0, 3)", y.ofProcedure(0, 3), 3 * 89 + 3);
+        Check.same("the BREAK", y.code(0, 178, 0), 6);
+        Check.same("where it goes", y.code(0, 178, 1), 180);
+        y.run();
+        ofRun(y, 0, 0, NONE, 1, 0, 1, 0, 1, 0);
+        Tower z = new Tower();
+        int p = printing(z, 8);
+        all = z.node(THROW, ROOT, 1, 0);
+        for (int k = 0; k < 36; k++) {
+            all = z.node(USING, NONE, all, p);
+        }
+        z.body(0, all);
+        faults(z);
+        Check.same("USING, ofProcedure(0, 3)", z.ofProcedure(0, 3), 36 * 6 + 3);
+        Check.same("USING, ofProcedure(0, 4)", z.ofProcedure(0, 4), 72);
+        Check.same("run()", z.run(), 1);
+        Check.same("ofRun(4)", z.ofRun(4), 36);
+        Tower t = new Tower();
+        all = t.node(THROW, ZERO, 1, 0);
+        for (int k = 0; k < 29; k++) {
+            all = caught(t, all, k < 28 ? RING : ZERO, print(t, k));
+        }
+        t.body(0, all);
+        faults(t);
+        Check.same("TRY, ofProcedure(0, 4)", t.ofProcedure(0, 4), 29);
+        Check.same("run()", t.run(), 0);
+        prints(t, 28);
+    }
+
     private static void begins() {
         Check.about("promise 12: how many NODES begin with it (a CATCH begins with its CAUGHT)");
         Tower x = new Tower();
@@ -408,6 +500,33 @@ public final class EdgesOfCodeTest extends Tests {
         Check.same("the TRY, the BREAK, and the FINALLY on its WAY OUT", y.code(0, 2, 4), 3);
         Check.same("the UNLESS of a LOOP", y.code(0, 1, 4), 0);
         Check.same("the last CAUGHT of a FINALLY", y.code(0, 6, 4), 0);
+    }
+
+    private static void manyBegins() {
+        Check.about("promise 12: of a FINALLY of 19 PRINTS in 18 SEQS that is laid 13 times, each NODE of each one");
+        Tower x = new Tower();
+        int last = print(x, 18);
+        for (int k = 17; k >= 0; k--) {
+            last = x.node(SEQ, 0, print(x, k), last);
+        }
+        int b = x.node(DIV, 0, 0, 0);
+        for (int k = 0; k < 10; k++) {
+            b = x.node(SEQ, 0, x.node(IF, 109 - k, returned(x, k), NONE), b);
+        }
+        x.body(0, x.node(TRY, last, b, NONE));
+        faults(x);
+        Check.same("ofProcedure(0, 3)", x.ofProcedure(0, 3), 10 * 22 + 1 + 19 + 2 + 19 + 1 + 2);
+        int all = 0;
+        for (int k = 0; k < x.ofProcedure(0, 3); k++) {
+            all += x.code(0, k, 4);
+        }
+        Check.same("how many begin in all", all, 1 + 10 * (3 + 37) + 1 + 2 * 37);
+        Check.same("run()", x.run(), 1);
+        Check.same("ofRun(3)", x.ofRun(3), 1 + 20 + 1 + 37);
+        for (int node = 0; node <= last; node++) {
+            Check.same("of the last one, ofNode(" + node + ", 7)", x.ofNode(node, 7), 1);
+        }
+        Check.same("printed(18, 2)", x.printed(18, 2), 0);
     }
 
     // ---- rows
@@ -477,6 +596,39 @@ public final class EdgesOfCodeTest extends Tests {
         // USING 0 to 6; FINALLY 7 to 10, SKIP; CAUGHT 12; TRY 13 to 16; FINALLY 17 to 20, SKIP; CAUGHT 22; FINALLY 23
         rows(x, 0, at(0, 1, 3, NONE), at(4, 5, 6, NONE), at(7, 8, 9, RING), at(13, 14, 15, ZERO), at(17, 18, 19, RING),
                 at(23, 24, 25, RING), at(0, 7, 12, EMPTY), at(0, 7, 22, NONE), at(12, 17, 22, NONE));
+    }
+
+    private static void manyRows() {
+        Check.about("section 5: CATCH by CATCH, piece by piece: 13 CATCHES and 21 pieces");
+        Tower x = new Tower();
+        for (int kind = 5; kind <= 12; kind++) {
+            x.kind(ROOT, false);
+        }
+        int b = print(x, 0);
+        for (int k = 0; k < 20; k++) {
+            b = x.node(SEQ, 0, x.node(IF, 0, returned(x, k), NONE), b);
+        }
+        int next = NONE;
+        for (int kind = 0; kind <= 12; kind++) {
+            next = x.node(CATCH, kind, print(x, kind), next);
+        }
+        x.body(0, x.node(TRY, NONE, b, next));
+        faults(x);
+        Check.same("ofProcedure(0, 3)", x.ofProcedure(0, 3), 62 + 13 * 3 - 1 + 2);
+        Check.same("ofProcedure(0, 4)", x.ofProcedure(0, 4), 273);
+        Check.same("many(6)", x.many(6), 273);
+        for (int k = 0; k < 273; k++) {
+            int piece = k % 21;
+            int[] due = {3 * piece, piece < 20 ? 3 * piece + 2 : 61, 62 + k / 21 * 3, 12 - k / 21};
+            for (int what = 0; what <= 3; what++) {
+                Check.same("row(0, " + k + ", " + what + ")", x.row(0, k, what), due[what]);
+            }
+        }
+        Check.outOfBounds("row(0, 273, 0)", () -> x.row(0, 273, 0));
+        Check.outOfBounds("row(0, -1, 0)", () -> x.row(0, NONE, 0));
+        Check.same("run()", x.run(), 0);
+        x.prune(true);
+        rows(x, 0);
     }
 
     private static void emptyPieces() {

@@ -24,6 +24,8 @@ public final class EdgesOfFaultsTest extends Tests {
         untold();
         untoldClassByClass();
         inNone();
+        lastOfNinety();
+        mostFaults();
         longest();
         tooLongLast();
         veryLong();
@@ -351,6 +353,79 @@ public final class EdgesOfFaultsTest extends Tests {
         faults(x);
         x.body(0, x.many(2) - 1);
         faults(x, at(7, 0, 4, NONE), at(5, 0, 2, NONE), at(5, 0, 3, NONE));
+    }
+
+    private static void lastOfNinety() {
+        Check.about("section 3: NODE by NODE, of 90 NODES as well");
+        for (int last : new int[] {BREAK, AGAIN}) {
+            Tower x = new Tower();
+            int node = x.node(last, 0, 0, 0);
+            int all = node;
+            for (int k = 0; k < 44; k++) {
+                all = x.node(SEQ, 0, print(x, k), all);
+            }
+            all = x.node(LOOP, 0, all, 0);
+            Check.same("NODES", x.many(2), 90);
+            x.body(0, all);
+            if (last == BREAK) {
+                faults(x);
+            } else {
+                faults(x, at(5, 0, node, NONE));
+            }
+        }
+    }
+
+    /** Each NODE but the CALLS has a FAULT, and each PROCEDURE but one does not TELL 8 CLASSES. */
+    private static void mostFaults() {
+        Check.about("section 3: as many FAULTS as there can be, each is told");
+        Tower x = new Tower();
+        for (int kind = 5; kind <= 12; kind++) {
+            x.kind(ROOT, true);
+        }
+        x.procedure(8191);
+        for (int p = 2; p <= 7; p++) {
+            x.procedure(0);
+        }
+        x.body(1, x.node(AGAIN, 0, 0, 0));
+        int[] again = new int[8];
+        for (int p = 2; p <= 7; p++) {
+            again[p] = x.node(AGAIN, 0, 0, 0);
+            x.body(p, x.node(SEQ, 0, again[p], x.node(CALL, 0, 1, 0)));
+        }
+        int all = x.node(CALL, 0, 1, 0);
+        while (x.many(2) <= 88) {
+            all = x.node(SEQ, 0, x.node(AGAIN, 0, 0, 0), all);
+        }
+        x.body(0, all);
+        Check.same("NODES", x.many(2), 90);
+        int seqs = (90 - 1 - 18 - 1) / 2;
+        int count = 2 * seqs + 8 + 1 + 6 * 10;
+        Check.same("many(4)", x.many(4), count);
+        for (int k = 0; k < 2 * seqs; k++) {
+            Check.same("fault(" + k + ", 0)", x.fault(k, 0), k % 2 == 0 ? 7 : 5);
+            Check.same("fault(" + k + ", 2)", x.fault(k, 2), 89 - k / 2 * 2 - k % 2);
+        }
+        int k = 2 * seqs;
+        for (int p = 0; p <= 7; p++) {
+            if (p == 1) {
+                Check.same("fault(" + k + ", 2)", x.fault(k, 2), 0);
+                k++;
+                continue;
+            }
+            if (p > 1) {
+                Check.same("fault(" + k + ", 0)", x.fault(k, 0), 7);
+                Check.same("fault(" + (k + 1) + ", 2)", x.fault(k + 1, 2), again[p]);
+                k += 2;
+            }
+            for (int kind = 5; kind <= 12; kind++) {
+                Check.same("fault(" + k + ", 0)", x.fault(k, 0), 3);
+                Check.same("fault(" + k + ", 1)", x.fault(k, 1), p);
+                Check.same("fault(" + k + ", 3)", x.fault(k, 3), kind);
+                k++;
+            }
+        }
+        Check.same("all of them", k, count);
+        Check.outOfBounds("fault(" + count + ", 0)", () -> x.fault(count, 0));
     }
 
     // ---- fault 8
