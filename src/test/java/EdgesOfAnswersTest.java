@@ -31,6 +31,7 @@ public final class EdgesOfAnswersTest extends Tests {
         meanOfMore();
         many();
         manyWithFaults();
+        manyOfAll();
         wouldRun();
         wouldRunChangesNothing();
         catcher();
@@ -522,6 +523,48 @@ public final class EdgesOfAnswersTest extends Tests {
         Check.same("many(3), as the BODY of MAIN is another one", y.many(3), 2 + 10);
         y.prune(true);
         Check.same("many(9)", y.many(9), 1);
+    }
+
+    /** Each PROCEDURE CALLS the next one, of which the last one throws what the one before it catches. */
+    private static Tower calling(int procedures) {
+        Tower x = new Tower();
+        for (int p = 1; p < procedures; p++) {
+            x.procedure(0);
+        }
+        x.body(procedures - 1, x.node(DIV, 0, 0, 0));
+        for (int p = procedures - 2; p >= 0; p--) {
+            x.body(p, caught(x, x.node(CALL, p, p + 1, 0), ROOT, print(x, p)));
+        }
+        return x;
+    }
+
+    private static void manyOfAll() {
+        Check.about("promise 23: how long the CODE of all is, ROWS of all; of 1, 2, 7 and 8 PROCEDURES");
+        for (int procedures : new int[] {1, 2, 7, 8}) {
+            Tower x = calling(procedures);
+            int last = procedures - 1;
+            Check.same("many(1)", x.many(1), procedures);
+            faults(x);
+            Check.same("many(5) of " + procedures, x.many(5), 6 * last + 3);
+            Check.same("many(6) of " + procedures, x.many(6), last);
+            for (int p = 0; p < procedures; p++) {
+                Check.same("ofProcedure(" + p + ", 3)", x.ofProcedure(p, 3), p == last ? 3 : 6);
+                Check.same("ofProcedure(" + p + ", 4)", x.ofProcedure(p, 4), p == last ? 0 : 1);
+                Check.same("code(" + p + ", 0, 0)", x.code(p, 0, 0), p == last ? 3 : 9);
+                Check.same("code(" + p + ", 0, 2)", x.code(p, 0, 2), p == last ? 0 : p + 1);
+            }
+            Check.same("run()", x.run(), procedures == 1 ? 1 : 0);
+            ofRun(x, procedures == 1 ? 1 : 0, 0, procedures == 1 ? 0 : NONE, procedures == 1 ? 1 : 2 * last + 3,
+                    procedures == 1 ? 0 : 1, procedures, 1, procedures, 0, 1);
+            for (int p = 0; p < procedures; p++) {
+                Check.same("ofProcedure(" + p + ", 5)", x.ofProcedure(p, 5), 1);
+            }
+            int all = procedures;
+            outOfBounds("code(" + all + ", 0, 0)", () -> calling(all), y -> y.code(all, 0, 0));
+            outOfBounds("row(" + all + ", 0, 0)", () -> calling(all), y -> y.row(all, 0, 0));
+            outOfBounds("row(" + last + ", 0, 0), of which there is none", () -> calling(all), y -> y.row(last, 0, 0));
+            Check.same("digest()", x.digest(), Digest.of(x));
+        }
     }
 
     // ---- promises 24 to 27

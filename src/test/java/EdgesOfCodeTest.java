@@ -37,6 +37,7 @@ public final class EdgesOfCodeTest extends Tests {
         firstRowThatFits();
         rowsInOrder();
         manyRows();
+        manyUsings();
         emptyPieces();
         prune();
         pruneByInstruction();
@@ -140,6 +141,12 @@ public final class EdgesOfCodeTest extends Tests {
         code(x, 0, at(5, 2, 109, 0, 1), at(4, 1, 0, 0, 1), HOLD, GIVE);
         x.body(0, x.node(IF, -99, print(x, 1), print(x, 2)));
         code(x, 0, at(5, 3, -99, 0, 1), at(4, 1, 0, 0, 1), at(6, 4, 0, 0, 0), at(4, 2, 0, 0, 1), HOLD, GIVE);
+        Check.about("section 5, IF: c has nothing of what is around a part of b");
+        int tried = x.node(TRY, print(x, 9), print(x, 1), NONE);
+        x.body(0, x.node(IF, 0, tried, returned(x, 5)));
+        code(x, 0, at(5, 8, 0, 0, 1), at(4, 1, 0, 0, 2), at(4, 9, 0, 0, 1), at(6, 7, 0, 0, 0), at(11, 0, 0, 0, 0),
+                at(4, 9, 0, 0, 1), at(12, 0, 0, 0, 0), at(6, 10, 0, 0, 0), at(7, 5, 0, 0, 1), GIVE, HOLD, GIVE);
+        rows(x, 0, at(1, 2, 4, NONE));
         Check.about("section 2, IF: X is above 0");
         for (int number = -1; number <= 2; number++) {
             x.body(0, x.node(IF, number, print(x, 1), print(x, 2)));
@@ -503,10 +510,10 @@ public final class EdgesOfCodeTest extends Tests {
     }
 
     private static void manyBegins() {
-        Check.about("promise 12: of a FINALLY of 19 PRINTS in 18 SEQS that is laid 13 times, each NODE of each one");
+        Check.about("promise 12: of a FINALLY of 21 PRINTS in 20 SEQS that is laid 12 times, each NODE of each one");
         Tower x = new Tower();
-        int last = print(x, 18);
-        for (int k = 17; k >= 0; k--) {
+        int last = print(x, 20);
+        for (int k = 19; k >= 0; k--) {
             last = x.node(SEQ, 0, print(x, k), last);
         }
         int b = x.node(DIV, 0, 0, 0);
@@ -515,18 +522,18 @@ public final class EdgesOfCodeTest extends Tests {
         }
         x.body(0, x.node(TRY, last, b, NONE));
         faults(x);
-        Check.same("ofProcedure(0, 3)", x.ofProcedure(0, 3), 10 * 22 + 1 + 19 + 2 + 19 + 1 + 2);
+        Check.same("ofProcedure(0, 3)", x.ofProcedure(0, 3), 10 * 24 + 1 + 21 + 2 + 21 + 1 + 2);
         int all = 0;
         for (int k = 0; k < x.ofProcedure(0, 3); k++) {
             all += x.code(0, k, 4);
         }
-        Check.same("how many begin in all", all, 1 + 10 * (3 + 37) + 1 + 2 * 37);
+        Check.same("how many begin in all", all, 1 + 10 * (3 + 41) + 1 + 2 * 41);
         Check.same("run()", x.run(), 1);
-        Check.same("ofRun(3)", x.ofRun(3), 1 + 20 + 1 + 37);
+        Check.same("ofRun(3)", x.ofRun(3), 1 + 20 + 1 + 41);
         for (int node = 0; node <= last; node++) {
             Check.same("of the last one, ofNode(" + node + ", 7)", x.ofNode(node, 7), 1);
         }
-        Check.same("printed(18, 2)", x.printed(18, 2), 0);
+        Check.same("printed(20, 2)", x.printed(20, 2), 0);
     }
 
     // ---- rows
@@ -629,6 +636,37 @@ public final class EdgesOfCodeTest extends Tests {
         Check.same("run()", x.run(), 0);
         x.prune(true);
         rows(x, 0);
+    }
+
+    private static void manyUsings() {
+        Check.about("section 5: a FINALLY of 20 USINGS that is laid 12 times, for the pieces of two TRYS around it");
+        Tower x = new Tower();
+        int p = printing(x, 8);
+        int last = print(x, 7);
+        for (int k = 0; k < 20; k++) {
+            last = x.node(USING, p, last, NONE);
+        }
+        int b = x.node(DIV, 0, 0, 0);
+        for (int k = 0; k < 10; k++) {
+            b = x.node(SEQ, 0, x.node(IF, 109 - k, returned(x, k), NONE), b);
+        }
+        int middle = caught(x, x.node(TRY, last, b, NONE), RING, print(x, 5));
+        x.body(0, caught(x, middle, ROOT, print(x, 6)));
+        faults(x);
+        Check.same("ofProcedure(0, 3)", x.ofProcedure(0, 3), 294);
+        int[][] due = new int[33][];
+        for (int k = 0; k < 10; k++) {
+            due[k] = at(24 * k, 24 * k + 2, 263, NONE);
+            due[11 + k] = at(24 * k, 24 * k + 23, 287, RING);
+            due[22 + k] = at(24 * k, 24 * k + 23, 290, ROOT);
+        }
+        due[10] = at(240, 241, 263, NONE);
+        due[21] = at(240, 286, 287, RING);
+        due[32] = at(240, 289, 290, ROOT);
+        rows(x, 0, due);
+        Check.same("run()", x.run(), 0);
+        Check.same("ofRun(4)", x.ofRun(4), 20 + 1 + 1);
+        Check.same("the last one PRINTED", x.printed(21, 0), 6);
     }
 
     private static void emptyPieces() {

@@ -31,6 +31,7 @@ public final class EdgesOfRunsTest extends Tests {
         mostSteps();
         cutOffKeeps();
         traceOfSix();
+        traceOfSixUsings();
         traceOfUsing();
         traceOfSpecial();
         Check.end();
@@ -424,6 +425,11 @@ public final class EdgesOfRunsTest extends Tests {
                 int number = last != END ? 3 : isCaught ? 2 : 1;
                 int due = last != END ? last : way % INNER_CATCH;
                 wentOn(x, "b or CATCH " + way + ", FINALLY " + last, due, number);
+                Check.about("section 4: if FINALLY is left in another way than to its end itself, by that alone");
+                Check.same("SUPPRESSED", x.ofRun(8), 0);
+                for (int e = 0; e < x.ofRun(6); e++) {
+                    Check.same("the CAUSE of " + e, x.exception(e, 2), NONE);
+                }
             }
         }
     }
@@ -666,6 +672,29 @@ public final class EdgesOfRunsTest extends Tests {
         Check.same("run()", x.run(), 1);
         Check.same("ofRun(6)", x.ofRun(6), 1);
         trace(x, 0, thrown);
+    }
+
+    private static void traceOfSixUsings() {
+        Check.about("section 4, TRACE: the first 6 of all these, of CALLS, and of USINGS that were OPENING or CLOSING, by turns");
+        for (int procedures = 3; procedures <= 7; procedures++) {
+            Tower x = new Tower();
+            for (int p = 1; p <= procedures; p++) {
+                x.procedure(0);
+            }
+            int[] nodes = new int[procedures + 1];
+            for (int p = 0; p <= procedures; p++) {
+                int node = p == procedures ? x.node(DIV, 0, 0, 0)
+                        : p % 3 == 0 ? x.node(USING, p + 1, print(x, 1), NONE)
+                        : p % 3 == 1 ? x.node(CALL, 0, p + 1, 0) : x.node(USING, NONE, print(x, 1), p + 1);
+                x.body(p, node);
+                nodes[procedures - p] = node;
+            }
+            Check.same("run()", x.run(), 1);
+            Check.same("ofRun(7)", x.ofRun(7), procedures + 1);
+            int[] due = new int[Math.min(6, nodes.length)];
+            System.arraycopy(nodes, 0, due, 0, due.length);
+            trace(x, 0, due);
+        }
     }
 
     private static void traceOfUsing() {
