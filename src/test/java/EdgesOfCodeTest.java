@@ -639,34 +639,38 @@ public final class EdgesOfCodeTest extends Tests {
     }
 
     private static void manyUsings() {
-        Check.about("section 5: a FINALLY of 20 USINGS that is laid 12 times, for the pieces of two TRYS around it");
+        Check.about("section 5: a FINALLY of 20 USINGS around a RETURN, laid 11 times, for the pieces of two TRYS around it");
         Tower x = new Tower();
         int p = printing(x, 8);
-        int last = print(x, 7);
+        int last = x.node(IF, 0, returned(x, 7), NONE);
         for (int k = 0; k < 20; k++) {
             last = x.node(USING, p, last, NONE);
         }
         int b = x.node(DIV, 0, 0, 0);
-        for (int k = 0; k < 10; k++) {
+        for (int k = 0; k < 9; k++) {
             b = x.node(SEQ, 0, x.node(IF, 109 - k, returned(x, k), NONE), b);
         }
         int middle = caught(x, x.node(TRY, last, b, NONE), RING, print(x, 5));
         x.body(0, caught(x, middle, ROOT, print(x, 6)));
         faults(x);
-        Check.same("ofProcedure(0, 3)", x.ofProcedure(0, 3), 294);
-        int[][] due = new int[33][];
-        for (int k = 0; k < 10; k++) {
-            due[k] = at(24 * k, 24 * k + 2, 263, NONE);
-            due[11 + k] = at(24 * k, 24 * k + 23, 287, RING);
-            due[22 + k] = at(24 * k, 24 * k + 23, 290, ROOT);
+        Check.same("ofProcedure(0, 3)", x.ofProcedure(0, 3), 292);
+        int[][] due = new int[34][];
+        for (int k = 0; k < 9; k++) {
+            due[k] = at(26 * k, 26 * k + 2, 259, NONE);
+            due[10 + k] = at(26 * k, 26 * k + 24, 285, RING);
+            due[22 + k] = at(26 * k, 26 * k + 24, 288, ROOT);
         }
-        due[10] = at(240, 241, 263, NONE);
-        due[21] = at(240, 286, 287, RING);
-        due[32] = at(240, 289, 290, ROOT);
+        due[9] = at(234, 235, 259, NONE);
+        due[19] = at(234, 257, 285, RING);
+        due[20] = at(258, 282, 285, RING);
+        due[21] = at(283, 284, 285, RING);
+        due[31] = at(234, 257, 288, ROOT);
+        due[32] = at(258, 282, 288, ROOT);
+        due[33] = at(283, 287, 288, ROOT);
         rows(x, 0, due);
         Check.same("run()", x.run(), 0);
-        Check.same("ofRun(4)", x.ofRun(4), 20 + 1 + 1);
-        Check.same("the last one PRINTED", x.printed(21, 0), 6);
+        Check.same("ofRun(4)", x.ofRun(4), 20 + 1);
+        Check.same("the last one PRINTED", x.printed(20, 0), 6);
     }
 
     private static void emptyPieces() {
