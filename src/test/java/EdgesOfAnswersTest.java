@@ -22,8 +22,10 @@ public final class EdgesOfAnswersTest extends Tests {
         exception();
         exceptionFirst40();
         suppressed();
+        suppressedMany();
         suppressedBehind40();
         trace();
+        traceOfEachKept();
         held();
         heldAheadOfAllRuns();
         meanPrinted();
@@ -321,6 +323,20 @@ public final class EdgesOfAnswersTest extends Tests {
         Check.outOfBounds("suppressed(0, 0) of a later run", () -> x.suppressed(0, 0));
     }
 
+    private static void suppressedMany() {
+        Check.about("promise 19: the one that was SUPPRESSED beneath it as this one, of more than are kept");
+        for (int times = 38; times <= 45; times++) {
+            Tower x = beneath(times);
+            exception(x, 0, ZERO, 1, NONE, times, 1);
+            Check.same("ofRun(8)", x.ofRun(8), times);
+            for (int k = 0; k < times; k++) {
+                Check.same("suppressed(0, " + k + ") of " + times, x.suppressed(0, k), k + 1);
+            }
+            int all = times;
+            Check.outOfBounds("suppressed(0, " + all + ")", () -> x.suppressed(0, all));
+        }
+    }
+
     private static void suppressedBehind40() {
         Check.about("promises 18 and 19: one that is not kept can be the CAUSE, or SUPPRESSED beneath, one that is");
         // 38, 39 or 40 EXCEPTIONS, one in a SLOT, one more that is SUPPRESSED beneath it, and one that is its CAUSE
@@ -382,6 +398,30 @@ public final class EdgesOfAnswersTest extends Tests {
         outOfBounds("trace(0, 0) ahead of all runs", NEW, x -> x.trace(0, 0));
         outOfBounds("trace(3, -1)", RAN, x -> x.trace(3, NONE));
         outOfBounds("trace(-1, 6)", FAULTY, x -> x.trace(NONE, 6));
+    }
+
+    private static void traceOfEachKept() {
+        Check.about("promise 20: the NODE there, of each EXCEPTION that is kept");
+        Tower x = new Tower();
+        int thrower = x.procedure(0);
+        int thrown = x.node(THROW, ROOT, 1, 0);
+        x.body(thrower, thrown);
+        int call = x.node(CALL, 0, thrower, 0);
+        x.body(0, turns(x, 41, caught(x, call, ROOT, x.node(WRAP, RING, 2, 0))));
+        for (int times = 1; times <= 2; times++) {
+            x.run();
+            exception(x, 0, ROOT, 1, NONE, 0, 2);
+            trace(x, 0, thrown, call);
+            exception(x, 1, RING, 2, 0, 0, 1);
+        }
+        x.body(0, turns(x, 41, caught(x, x.node(CALL, 0, thrower, 0), ROOT, print(x, 1))));
+        x.run();
+        Check.same("ofRun(6)", x.ofRun(6), 41);
+        int caller = x.printed(0, 2) - 1;
+        for (int e = 0; e < 40; e++) {
+            trace(x, e, thrown, caller);
+        }
+        Check.outOfBounds("trace(40, 0)", () -> x.trace(40, 0));
     }
 
     // ---- promises 21 to 23
@@ -771,6 +811,17 @@ public final class EdgesOfAnswersTest extends Tests {
         int second = last.node(CATCH, 5, print(last, 1), NONE);
         last.body(0, last.node(TRY, NONE, print(last, 2), last.node(CATCH, 6, print(last, 3), second)));
         Check.same("digest()", last.digest(), Digest.of(last));
+        for (int kind = ROOT; kind <= EMPTY; kind++) {
+            for (int without = 0; without <= 4; without++) {
+                Tower y = new Tower();
+                for (int p = 0; p < without; p++) {
+                    y.procedure(0);
+                }
+                y.body(0, caught(y, print(y, 1), kind, print(y, 2)));
+                Check.same("FAULTS", y.many(4), without);
+                Check.same("digest() with a CATCH of " + kind, y.digest(), Digest.of(y));
+            }
+        }
         Check.about("promise 27: of wouldRun() of 150, 4");
         for (int more = 0; more <= 2; more++) {
             Tower y = new Tower();

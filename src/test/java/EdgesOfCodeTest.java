@@ -6,6 +6,7 @@ public final class EdgesOfCodeTest extends Tests {
     private static final Supplier<Tower> RAN = Samples::ran;
     private static final Supplier<Tower> FAULTY = Samples::faulty;
     private static final Supplier<Tower> SHORT = EdgesOfCodeTest::shortest;
+    private static final int MAIN = 0;
     private static final int[] HOLD = {7, 0, 0, 0, 0};
     private static final int[] GIVE = {8, 0, 0, 0, 0};
 
@@ -33,7 +34,9 @@ public final class EdgesOfCodeTest extends Tests {
         deepest();
         begins();
         manyBegins();
+        laidAgain();
         rowsFromAndTo();
+        rowsOfWholes();
         firstRowThatFits();
         rowsInOrder();
         manyRows();
@@ -536,7 +539,99 @@ public final class EdgesOfCodeTest extends Tests {
         Check.same("printed(20, 2)", x.printed(20, 2), 0);
     }
 
+    private static void laidAgain() {
+        Check.about("promise 12: how many NODES begin with it, however often the CODE was asked for");
+        UnwindTower x = new UnwindTower();
+        int all = x.node(PRINT, 0, 0, 0);
+        for (int k = 1; k <= 9; k++) {
+            all = x.node(SEQ, 0, x.node(PRINT, 0, k, 0), all);
+        }
+        x.body(MAIN, all);
+        for (int k = 0; k < 220; k++) {
+            x.prune(k % 2 == 0);
+            Check.same("code(0, 0, 4)", x.code(MAIN, 0, 4), 2);
+        }
+        x.run();
+        Check.same("ofRun(3)", x.ofRun(3), 19);
+        for (int node = 0; node <= all; node++) {
+            Check.same("ofNode(" + node + ", 7)", x.ofNode(node, 7), 1);
+        }
+    }
+
     // ---- rows
+
+    private static final int WHOLES = 22;
+
+    /** STATEMENTS of all sorts, out of which no WAY OUT leads. */
+    private static int whole(Tower x, int which) {
+        switch (which) {
+            case 0: return x.node(SET, 0, 1, 0);
+            case 1: return x.node(ADD, 0, 1, 0);
+            case 2: return x.node(DIV, 0, 1, 0);
+            case 3: return print(x, 1);
+            case 4: return seq(x, print(x, 1), print(x, 2));
+            case 5: return x.node(IF, 1, print(x, 1), NONE);
+            case 6: return x.node(IF, 1, print(x, 1), print(x, 2));
+            case 7: return x.node(LOOP, 0, print(x, 1), 0);
+            case 8: return x.node(LOOP, 0, broken(x), 0);
+            case 9: return x.node(CALL, 0, MAIN, 0);
+            case 10: return x.node(THROW, ROOT, 1, 0);
+            case 11: return caught(x, print(x, 1), ROOT, print(x, 2));
+            case 12: return x.node(TRY, print(x, 1), print(x, 2), NONE);
+            case 13: return x.node(TRY, print(x, 1), print(x, 2), x.node(CATCH, RING, print(x, 3), NONE));
+            case 14: return x.node(LOOP, 0, x.node(TRY, print(x, 1), broken(x), NONE), 0);
+            case 15: return x.node(USING, MAIN, print(x, 1), NONE);
+            case 16: return x.node(USING, NONE, print(x, 1), MAIN);
+            case 17: return x.node(USING, MAIN, print(x, 1), MAIN);
+            case 18: return x.node(LOOP, 0, x.node(USING, MAIN, broken(x), MAIN), 0);
+            case 19: return x.node(THROWN, 0, 0, 0);
+            case 20: return x.node(LOOP, 0, x.node(IF, 1, broken(x), print(x, 1)), 0);
+            default: return caught(x, print(x, 1), ROOT, x.node(AGAIN, 0, 0, 0));
+        }
+    }
+
+    private static void rowsOfWholes() {
+        Check.about("section 5: for what is left of the CODE of b: all of it, if no BREAK or RETURN leads out of it");
+        for (int which = 0; which < WHOLES; which++) {
+            Tower alone = new Tower();
+            alone.body(MAIN, whole(alone, which));
+            faults(alone);
+            int n = alone.ofProcedure(MAIN, 3) - 2;
+            Tower x = new Tower();
+            int b = whole(x, which);
+            x.body(MAIN, x.node(TRY, print(x, 7), b, x.node(CATCH, ROOT, print(x, 8), NONE)));
+            rowsBehind(x, alone, 0, at(0, n, n + 2, ROOT), at(0, n, n + 6, NONE), at(n + 2, n + 4, n + 6, NONE));
+            Tower y = new Tower();
+            int closes = printing(y, 9);
+            y.body(MAIN, y.node(USING, NONE, whole(y, which), closes));
+            rowsBehind(y, alone, 0, at(0, n, n + 2, NONE), at(n + 3, n + 4, n + 5, NONE));
+            Tower z = new Tower();
+            int handled = z.node(CATCH, ROOT, whole(z, which), NONE);
+            z.body(MAIN, z.node(TRY, print(z, 7), print(z, 8), handled));
+            rowsBehind(z, alone, 4, at(0, 1, 3, ROOT), at(0, 1, n + 6, NONE), at(3, n + 4, n + 6, NONE));
+        }
+        Check.about("section 5: the same of what is within a CATCH");
+        int[][] singles = {{AGAIN, 0, 0}, {WRAP, ROOT, 1}, {KEEP, 0, 0}, {LINK, 0, 0}};
+        for (int[] single : singles) {
+            Tower x = new Tower();
+            int handled = x.node(CATCH, ROOT, x.node(single[0], single[1], single[2], 0), NONE);
+            x.body(MAIN, x.node(TRY, print(x, 7), print(x, 8), handled));
+            rows(x, MAIN, at(0, 1, 3, ROOT), at(0, 1, 7, NONE), at(3, 5, 7, NONE));
+        }
+    }
+
+    /** The ROWS of what is laid by itself, so many places further on, and then these. */
+    private static void rowsBehind(Tower x, Tower alone, int places, int[]... due) {
+        int first = alone.ofProcedure(MAIN, 4);
+        int[][] all = new int[first + due.length][];
+        for (int k = 0; k < first; k++) {
+            all[k] = at(alone.row(MAIN, k, 0) + places, alone.row(MAIN, k, 1) + places, alone.row(MAIN, k, 2) + places,
+                    alone.row(MAIN, k, 3));
+        }
+        System.arraycopy(due, 0, all, first, due.length);
+        faults(x);
+        rows(x, MAIN, all);
+    }
 
     private static void rowsFromAndTo() {
         Check.about("section 5: out of an instruction at from, or behind it, and ahead of to");

@@ -14,6 +14,7 @@ public final class EdgesOfRunsTest extends Tests {
         linkOfItself();
         linkRing();
         linkToOther();
+        caughtWithin();
         deepByCall();
         deepByUsing();
         deepest();
@@ -218,6 +219,49 @@ public final class EdgesOfRunsTest extends Tests {
         exception(x, 1, ROOT, 2, NONE, 0, 1);
         exception(x, 2, ZERO, 3, 0, 0, 1);
         Check.same("ofRun(6)", x.ofRun(6), 3);
+    }
+
+    /**
+     * Four CATCHES within each other, of the EXCEPTIONS 1 to 4; in the one at that level a NODE of this sort is run,
+     * ahead of the TRY within, or behind that. The SLOT 1 holds the EXCEPTION 0.
+     */
+    private static Tower within(int level, boolean isBehind, int sort, int a, int b) {
+        Tower x = new Tower();
+        int first = caught(x, x.node(THROW, EMPTY, 9, 0), ROOT, x.node(KEEP, 1, 0, 0));
+        int inner = print(x, 0);
+        for (int k = 4; k >= 1; k--) {
+            if (k == level) {
+                int maybe = x.node(IF, 1, x.node(sort, a, b, 0), NONE);
+                inner = isBehind ? x.node(SEQ, 0, inner, maybe) : x.node(SEQ, 0, maybe, inner);
+            }
+            inner = caught(x, x.node(THROW, ROOT, 10 + k, 0), ROOT, inner);
+        }
+        x.body(0, x.node(SEQ, 0, first, inner));
+        x.run();
+        return x;
+    }
+
+    private static void caughtWithin() {
+        Check.about("section 2, within a CATCH (the innermost one around, in whose b it is): what was caught");
+        for (int place = 2; place <= 9; place++) {
+            int level = place / 2;
+            boolean isBehind = place % 2 == 1;
+            int made = isBehind ? 5 : level + 1;
+            Tower again = within(level, isBehind, AGAIN, 0, 0);
+            ofRun(again, 1, 0, level);
+            Check.same("AGAIN, ofRun(6)", again.ofRun(6), made);
+            Tower wrap = within(level, isBehind, WRAP, RING, 7);
+            ofRun(wrap, 1, 0, made);
+            exception(wrap, made, RING, 7, level, 0, 1);
+            Tower keep = within(level, isBehind, KEEP, 0, 0);
+            ofRun(keep, 0, 0, NONE);
+            Check.same("KEEP, held(10)", keep.held(10), level);
+            Tower link = within(level, isBehind, LINK, 1, 0);
+            ofRun(link, 0, 0, NONE);
+            for (int e = 0; e <= 4; e++) {
+                exception(link, e, e == 0 ? EMPTY : ROOT, e == 0 ? 9 : 10 + e, e == level ? 0 : NONE, 0, 1);
+            }
+        }
     }
 
     // ---- DEEP
@@ -662,6 +706,15 @@ public final class EdgesOfRunsTest extends Tests {
             System.arraycopy(nodes, 0, due, 0, length);
             trace(x, 0, due);
         }
+        Check.about("section 4, TRACE: of the NODES with the largest numbers");
+        Tower full = new Tower();
+        for (int k = 0; k < 84; k++) {
+            print(full, k);
+        }
+        int[] last = chain(full, 5);
+        Check.same("many(2)", full.many(2), 90);
+        full.run();
+        trace(full, 0, last);
         Check.about("section 4, TRACE: of the CALLS that were under way, not of those before; AGAIN and THROWN leave it");
         Tower x = new Tower();
         int p = printing(x, 1);
