@@ -23,6 +23,7 @@ public final class EdgesOfAnswersTest extends Tests {
         exceptionFirst40();
         suppressed();
         suppressedMany();
+        suppressedInOrder();
         suppressedBehind40();
         trace();
         traceOfEachKept();
@@ -334,6 +335,69 @@ public final class EdgesOfAnswersTest extends Tests {
             }
             int all = times;
             Check.outOfBounds("suppressed(0, " + all + ")", () -> x.suppressed(0, all));
+        }
+    }
+
+    private static void suppressedInOrder() {
+        Check.about("promise 19: the one that was SUPPRESSED beneath it as this one, whatever its number");
+        Tower x = new Tower();
+        int closes = x.procedure(1 << RING);
+        // each closing makes one that it catches, and throws the next one
+        x.body(closes, x.node(SEQ, 0, caught(x, x.node(THROW, EMPTY, 6, 0), ROOT, print(x, 1)), x.node(THROW, RING, 5, 0)));
+        int inner = x.node(THROW, ZERO, 1, 0);
+        for (int k = 0; k < 5; k++) {
+            inner = x.node(USING, NONE, inner, closes);
+        }
+        x.body(0, inner);
+        x.run();
+        exception(x, 0, ZERO, 1, NONE, 5, 1);
+        for (int k = 0; k < 5; k++) {
+            Check.same("suppressed(0, " + k + ")", x.suppressed(0, k), 2 * k + 2);
+            exception(x, 2 * k + 1, EMPTY, 6, NONE, 0, 2);
+            exception(x, 2 * k + 2, RING, 5, NONE, 0, 2);
+        }
+        Check.same("digest()", x.digest(), Digest.of(x));
+        Check.about("promise 19: one that is SUPPRESSED more than once, beneath one and beneath others");
+        Tower y = new Tower();
+        int again = y.procedure(0);
+        y.body(again, y.node(THROWN, 0, 0, 0));
+        int first = caught(y, y.node(THROW, RING, 1, 0), ROOT, y.node(KEEP, 0, 0, 0));
+        int two = y.node(USING, NONE, y.node(USING, NONE, y.node(THROW, ZERO, 2, 0), again), again);
+        int three = y.node(USING, NONE, y.node(USING, NONE, y.node(THROW, EMPTY, 3, 0), again), again);
+        int more = y.node(USING, NONE, three, again);
+        y.body(0, seq(y, first, caught(y, two, ROOT, print(y, 1)), caught(y, more, ROOT, print(y, 2))));
+        Check.same("run()", y.run(), 0);
+        Check.same("ofRun(8)", y.ofRun(8), 5);
+        exception(y, 0, RING, 1, NONE, 0, 1);
+        exception(y, 1, ZERO, 2, NONE, 2, 1);
+        exception(y, 2, EMPTY, 3, NONE, 3, 1);
+        for (int k = 0; k < 5; k++) {
+            int beneath = k < 2 ? 1 : 2;
+            int number = k < 2 ? k : k - 2;
+            Check.same("suppressed(" + beneath + ", " + number + ")", y.suppressed(beneath, number), 0);
+        }
+        Check.outOfBounds("suppressed(1, 2)", () -> y.suppressed(1, 2));
+        Check.outOfBounds("suppressed(2, 3)", () -> y.suppressed(2, 3));
+        Check.same("digest()", y.digest(), Digest.of(y));
+        Check.about("promise 19: behind one that is SUPPRESSED beneath two, each has its own next one");
+        Tower z = new Tower();
+        int same = z.procedure(0);
+        z.body(same, z.node(THROWN, 0, 0, 0));
+        int next = throwing(z, OVERFLOW, 9);
+        int[] parts = new int[4];
+        parts[0] = caught(z, z.node(THROW, RING, 1, 0), ROOT, z.node(KEEP, 0, 0, 0));
+        for (int k = 1; k <= 3; k++) {
+            int used = z.node(USING, NONE, z.node(USING, NONE, z.node(THROW, ZERO, k, 0), same), next);
+            parts[k] = caught(z, z.node(USING, NONE, used, same), ROOT, print(z, k));
+        }
+        z.body(0, seq(z, parts));
+        Check.same("run()", z.run(), 0);
+        for (int e = 1; e <= 5; e += 2) {
+            exception(z, e, ZERO, (e + 1) / 2, NONE, 3, 1);
+            int[] due = {0, e + 1, 0};
+            for (int k = 0; k < 3; k++) {
+                Check.same("suppressed(" + e + ", " + k + ")", z.suppressed(e, k), due[k]);
+            }
         }
     }
 

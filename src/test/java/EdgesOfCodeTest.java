@@ -28,7 +28,9 @@ public final class EdgesOfCodeTest extends Tests {
         wayOutOfCatchAndFinally();
         wayOutOfUsing();
         finallysWithinEachOther();
+        finallysOnAWayOutOfAFinally();
         catchesWithinEachOther();
+        caughtsInOtherPlaces();
         placesOfCaughts();
         caughtsOnAWayOut();
         deepest();
@@ -37,6 +39,7 @@ public final class EdgesOfCodeTest extends Tests {
         laidAgain();
         rowsFromAndTo();
         rowsOfWholes();
+        rowsOfEachProcedure();
         firstRowThatFits();
         rowsInOrder();
         manyRows();
@@ -366,6 +369,26 @@ public final class EdgesOfCodeTest extends Tests {
         Check.same("ofRun(1)", x.ofRun(1), 7);
     }
 
+    private static void finallysOnAWayOutOfAFinally() {
+        Check.about("section 5: a FINALLY on the WAY OUT of a RETURN in another FINALLY is within both");
+        Tower x = new Tower();
+        int inner = x.node(TRY, returned(x, 6), print(x, 1), NONE);
+        x.body(MAIN, x.node(TRY, returned(x, 5), inner, NONE));
+        code(x, MAIN, at(4, 1, 0, 0, 3), at(7, 6, 1, 0, 1), at(7, 5, 2, 0, 1), at(8, 2, 0, 0, 0), at(8, 1, 0, 0, 0),
+                at(6, 12, 0, 0, 0), at(11, 0, 0, 0, 0), at(7, 6, 1, 0, 1), at(7, 5, 2, 0, 1), at(8, 2, 0, 0, 0),
+                at(8, 1, 0, 0, 0), at(12, 0, 0, 0, 0), at(7, 5, 1, 0, 1), at(8, 1, 0, 0, 0), at(6, 19, 0, 0, 0),
+                at(11, 0, 0, 0, 0), at(7, 5, 1, 0, 1), at(8, 1, 0, 0, 0), at(12, 0, 0, 0, 0), HOLD, GIVE);
+        rows(x, MAIN, at(0, 1, 6, NONE), at(0, 2, 15, NONE), at(5, 8, 15, NONE), at(11, 12, 15, NONE));
+        Check.about("section 4: RETURN reckons its X ahead of all that is run on its way, also in a FINALLY");
+        int gone = x.node(TRY, broken(x), returned(x, 8), NONE);
+        int turned = x.node(SEQ, 0, x.node(SET, 0, 1, 0), x.node(LOOP, 0, gone, 0));
+        int first = x.node(TRY, returned(x, 6), print(x, 1), NONE);
+        x.body(MAIN, x.node(TRY, turned, first, NONE));
+        Check.same("run()", x.run(), 0);
+        Check.same("ofRun(1)", x.ofRun(1), 6);
+        Check.same("with the RETURN on its way", x.ofRun(3), 10);
+    }
+
     private static void catchesWithinEachOther() {
         Check.about("section 5: d of a CAUGHT is how many CAUGHTS it is within; AGAIN has that of its CATCH");
         Tower x = new Tower();
@@ -399,6 +422,46 @@ public final class EdgesOfCodeTest extends Tests {
             }
         }
         Check.same("CAUGHTS", found, 6);
+    }
+
+    /** The d of each CAUGHT of MAIN. */
+    private static void caughts(Tower x, int... due) {
+        faults(x);
+        int found = 0;
+        for (int k = 0; k < x.ofProcedure(MAIN, 3); k++) {
+            if (x.code(MAIN, k, 0) == 11) {
+                Check.same("CAUGHT " + found + " at " + k, x.code(MAIN, k, 1), found < due.length ? due[found] : NONE);
+                found++;
+            }
+        }
+        Check.same("CAUGHTS", found, due.length);
+    }
+
+    /** A TRY with a RETURN in its CATCH, and with a FINALLY in which a CAUGHT stands. */
+    private static int leaving(Tower x) {
+        int last = caught(x, print(x, 1), ROOT, print(x, 2));
+        return x.node(TRY, last, print(x, 3), x.node(CATCH, ZERO, x.node(IF, 100, returned(x, 4), NONE), NONE));
+    }
+
+    private static void caughtsInOtherPlaces() {
+        Check.about("section 5: d is how many CAUGHTS it is within, not what else it is within");
+        // of the FINALLY behind b; of the CATCH; of the FINALLY on the WAY OUT, and behind the CATCH; the last two
+        int[] due = {0, 0, 1, 0, 0, 1};
+        Tower x = new Tower();
+        x.body(MAIN, leaving(x));
+        caughts(x, due);
+        x.body(MAIN, x.node(SEQ, 0, print(x, 0), leaving(x)));
+        caughts(x, due);
+        x.body(MAIN, x.node(LOOP, 0, x.node(IF, 1, x.node(SEQ, 0, print(x, 0), leaving(x)), NONE), 0));
+        caughts(x, due);
+        Tower y = new Tower();
+        y.body(MAIN, caught(y, print(y, 0), ROOT, y.node(IF, 1, y.node(SEQ, 0, print(y, 0), leaving(y)), NONE)));
+        caughts(y, 0, 1, 1, 2, 1, 1, 2);
+        y.body(MAIN, y.node(IF, 1, y.node(USING, NONE, y.node(LOOP, 0, leaving(y), 0), MAIN), NONE));
+        caughts(y, 0, 0, 1, 0, 0, 1, 0);
+        int inner = caught(y, print(y, 0), ROOT, y.node(SEQ, 0, print(y, 0), leaving(y)));
+        y.body(MAIN, y.node(SEQ, 0, print(y, 0), caught(y, print(y, 0), ROOT, inner)));
+        caughts(y, 0, 1, 2, 2, 3, 2, 2, 3);
     }
 
     private static void placesOfCaughts() {
@@ -556,6 +619,19 @@ public final class EdgesOfCodeTest extends Tests {
         for (int node = 0; node <= all; node++) {
             Check.same("ofNode(" + node + ", 7)", x.ofNode(node, 7), 1);
         }
+        Check.about("promise 13: the ROWS, however often they were asked for");
+        UnwindTower y = new UnwindTower();
+        int inner = y.node(DIV, 0, 0, 0);
+        for (int k = 0; k < 5; k++) {
+            inner = y.node(TRY, NONE, inner, y.node(CATCH, ROOT, y.node(PRINT, 0, k, 0), NONE));
+        }
+        y.body(MAIN, inner);
+        for (int k = 0; k < 120; k++) {
+            y.prune(k % 2 == 0);
+            Check.same("ofProcedure(0, 4)", y.ofProcedure(MAIN, 4), 5);
+            Check.same("row(0, 4, 0)", y.row(MAIN, 4, 0), 0);
+            Check.same("row(0, 4, 1)", y.row(MAIN, 4, 1), 12 + 1);
+        }
     }
 
     // ---- rows
@@ -590,25 +666,41 @@ public final class EdgesOfCodeTest extends Tests {
         }
     }
 
+    /** What is laid ahead of something else: so many instructions, in USINGS that only OPEN. */
+    private static int behind(Tower x, int instructions, int statement) {
+        if (instructions == 0) {
+            return statement;
+        }
+        int ahead = print(x, 0);
+        for (int k = 1; k < instructions; k++) {
+            ahead = x.node(USING, MAIN, ahead, NONE);
+        }
+        return x.node(SEQ, 0, ahead, statement);
+    }
+
     private static void rowsOfWholes() {
         Check.about("section 5: for what is left of the CODE of b: all of it, if no BREAK or RETURN leads out of it");
-        for (int which = 0; which < WHOLES; which++) {
+        for (int one = 0; one < 3 * WHOLES; one++) {
+            int which = one % WHOLES;
+            int s = new int[] {0, 1, 8}[one / WHOLES];
             Tower alone = new Tower();
             alone.body(MAIN, whole(alone, which));
             faults(alone);
-            int n = alone.ofProcedure(MAIN, 3) - 2;
+            int n = s + alone.ofProcedure(MAIN, 3) - 2;
             Tower x = new Tower();
             int b = whole(x, which);
-            x.body(MAIN, x.node(TRY, print(x, 7), b, x.node(CATCH, ROOT, print(x, 8), NONE)));
-            rowsBehind(x, alone, 0, at(0, n, n + 2, ROOT), at(0, n, n + 6, NONE), at(n + 2, n + 4, n + 6, NONE));
+            int handled = x.node(CATCH, ROOT, print(x, 8), NONE);
+            x.body(MAIN, behind(x, s, x.node(TRY, print(x, 7), b, handled)));
+            rowsBehind(x, alone, s, at(s, n, n + 2, ROOT), at(s, n, n + 6, NONE), at(n + 2, n + 4, n + 6, NONE));
             Tower y = new Tower();
             int closes = printing(y, 9);
-            y.body(MAIN, y.node(USING, NONE, whole(y, which), closes));
-            rowsBehind(y, alone, 0, at(0, n, n + 2, NONE), at(n + 3, n + 4, n + 5, NONE));
+            y.body(MAIN, behind(y, s, y.node(USING, NONE, whole(y, which), closes)));
+            rowsBehind(y, alone, s, at(s, n, n + 2, NONE), at(n + 3, n + 4, n + 5, NONE));
             Tower z = new Tower();
-            int handled = z.node(CATCH, ROOT, whole(z, which), NONE);
-            z.body(MAIN, z.node(TRY, print(z, 7), print(z, 8), handled));
-            rowsBehind(z, alone, 4, at(0, 1, 3, ROOT), at(0, 1, n + 6, NONE), at(3, n + 4, n + 6, NONE));
+            handled = z.node(CATCH, ROOT, whole(z, which), NONE);
+            z.body(MAIN, behind(z, s, z.node(TRY, print(z, 7), print(z, 8), handled)));
+            rowsBehind(z, alone, s + 4, at(s, s + 1, s + 3, ROOT), at(s, s + 1, n + 6, NONE),
+                    at(s + 3, n + 4, n + 6, NONE));
         }
         Check.about("section 5: the same of what is within a CATCH");
         int[][] singles = {{AGAIN, 0, 0}, {WRAP, ROOT, 1}, {KEEP, 0, 0}, {LINK, 0, 0}};
@@ -618,6 +710,35 @@ public final class EdgesOfCodeTest extends Tests {
             x.body(MAIN, x.node(TRY, print(x, 7), print(x, 8), handled));
             rows(x, MAIN, at(0, 1, 3, ROOT), at(0, 1, 7, NONE), at(3, 5, 7, NONE));
         }
+    }
+
+    private static void rowsOfEachProcedure() {
+        Check.about("promise 13: a ROW of the TABLE of each PROCEDURE");
+        int[] tries = {2, 1, 0, 3, 4, 5, 6, 1};
+        Tower x = new Tower();
+        for (int p = 1; p <= 7; p++) {
+            x.procedure(0);
+        }
+        for (int p = 0; p <= 7; p++) {
+            int b = print(x, p);
+            for (int k = 0; k < tries[p]; k++) {
+                b = x.node(TRY, NONE, b, x.node(CATCH, k % 5, print(x, k), NONE));
+            }
+            x.body(p, b);
+        }
+        faults(x);
+        for (int p = 0; p <= 7; p++) {
+            int all = tries[p];
+            int[][] due = new int[all][];
+            for (int k = 0; k < all; k++) {
+                due[k] = at(0, 3 * k + 1, 3 * k + 2, k % 5);
+            }
+            rows(x, p, due);
+            int of = p;
+            Check.outOfBounds("row(" + p + ", " + all + ", 0)", () -> x.row(of, all, 0));
+        }
+        Check.same("many(6)", x.many(6), 2 + 1 + 3 + 4 + 5 + 6 + 1);
+        Check.same("digest()", x.digest(), Digest.of(x));
     }
 
     /** The ROWS of what is laid by itself, so many places further on, and then these. */

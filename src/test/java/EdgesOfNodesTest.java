@@ -472,6 +472,11 @@ public final class EdgesOfNodesTest extends Tests {
         Check.same("USING, a alone", x.ofNode(x.node(USING, 0, print(x, 0), NONE), 5), 18);
         Check.same("USING, c alone", x.ofNode(x.node(USING, NONE, print(x, 0), 0), 5), 18);
         Check.same("USING, b as well", x.ofNode(x.node(USING, NONE, x.node(THROW, 0, 0, 0), 0), 5), 19);
+        int p = x.procedure(4);
+        Check.same("USING, a of another PROCEDURE", x.ofNode(x.node(USING, p, print(x, 0), NONE), 5), 4);
+        Check.same("USING, c of another PROCEDURE", x.ofNode(x.node(USING, NONE, print(x, 0), p), 5), 4);
+        Check.same("USING, of both", x.ofNode(x.node(USING, 0, print(x, 0), p), 5), 18 + 4);
+        Check.same("USING, of both, the other way", x.ofNode(x.node(USING, p, print(x, 0), 0), 5), 18 + 4);
     }
 
     /** A TRY of what all three parts CAN; last is its FINALLY, or NONE. */
@@ -493,6 +498,12 @@ public final class EdgesOfNodesTest extends Tests {
         int first = x.node(CATCH, RING, print(x, 0), second);
         int b = seq(x, x.node(THROW, RING, 0, 0), x.node(THROW, EMPTY, 0, 0), x.node(THROW, ZERO, 0, 0));
         Check.same("by the second CATCH", x.ofNode(x.node(TRY, NONE, b, first), 5), 8);
+        Check.about("section 3, TRY: and what its CATCHES CAN, also what a later one would catch");
+        int later = x.node(CATCH, RING, x.node(THROW, ZERO, 0, 0), NONE);
+        int earlier = x.node(CATCH, ZERO, x.node(THROW, RING, 0, 0), later);
+        Check.same("one CATCH throws what the other one is of", x.ofNode(x.node(TRY, NONE, print(x, 0), earlier), 5), 8 + 4);
+        int its = x.node(CATCH, EMPTY, x.node(THROW, EMPTY, 0, 0), NONE);
+        Check.same("a CATCH throws its own CLASS", x.ofNode(x.node(TRY, NONE, print(x, 0), its), 5), 16);
         Check.about("section 3, TRY: none of these, if its FINALLY NEVER ENDS; and what its FINALLY CAN");
         Check.same("it ends", x.ofNode(tryOf(x, ZERO, 5, RING, print(x, 0)), 5), 8 + 4);
         int choice = x.node(IF, 0, x.node(THROW, EMPTY, 0, 0), NONE);
@@ -514,12 +525,13 @@ public final class EdgesOfNodesTest extends Tests {
             int[] n = sound(sort);
             Check.same("of sort " + sort, x.ofNode(x.node(n[0], n[1], n[2], n[3]), 6), sorts[sort]);
         }
-        for (int bits = 0; bits < 16; bits++) {
+        for (int bits = 0; bits < 32; bits++) {
             boolean first = (bits & 1) == 0;
             boolean second = (bits & 2) == 0;
             boolean third = (bits & 4) == 0;
             boolean last = (bits & 8) == 0;
             Tower x = new Tower();
+            ends(x, bits >= 16);
             String of = " of " + first + ", " + second + ", " + third + ", " + last;
             Check.same("SEQ" + of, x.ofNode(x.node(SEQ, 0, ends(x, first), ends(x, second)), 6), !first || !second ? 1 : 0);
             Check.same("IF" + of, x.ofNode(x.node(IF, 0, ends(x, first), ends(x, second)), 6), !first && !second ? 1 : 0);

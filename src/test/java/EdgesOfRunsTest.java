@@ -15,6 +15,9 @@ public final class EdgesOfRunsTest extends Tests {
         linkRing();
         linkToOther();
         caughtWithin();
+        linkOfEachNumber();
+        suppressedWithin();
+        opensAndClosesGiveNothing();
         deepByCall();
         deepByUsing();
         deepest();
@@ -260,6 +263,65 @@ public final class EdgesOfRunsTest extends Tests {
             ofRun(link, 0, 0, NONE);
             for (int e = 0; e <= 4; e++) {
                 exception(link, e, e == 0 ? EMPTY : ROOT, e == 0 ? 9 : 10 + e, e == level ? 0 : NONE, 0, 1);
+            }
+        }
+    }
+
+    private static void linkOfEachNumber() {
+        Check.about("section 4, LINK throws RING, whatever the number of the EXCEPTION is");
+        for (int before = 0; before <= 24; before++) {
+            Tower x = new Tower();
+            int other = caught(x, x.node(THROW, ROOT, 0, 0), ROOT, x.node(ADD, 9, -1, 0));
+            int others = x.node(SEQ, 0, x.node(SET, 9, before, 0), x.node(LOOP, 9, other, 0));
+            int link = x.node(LINK, 0, 0, 0);
+            int handled = x.node(SEQ, 0, x.node(KEEP, 0, 0, 0), link);
+            x.body(0, x.node(SEQ, 0, others, caught(x, x.node(THROW, EMPTY, 5, 0), ROOT, handled)));
+            Check.same("run()", x.run(), 1);
+            Check.same("ofRun(2)", x.ofRun(2), before + 1);
+            exception(x, before, EMPTY, 5, NONE, 0, 1);
+            exception(x, before + 1, RING, 0, NONE, 0, 1);
+            trace(x, before + 1, link);
+        }
+    }
+
+    private static void suppressedWithin() {
+        Check.about("section 4, USING: beneath what b was left by, also within a CATCH and behind one");
+        for (int catches = 0; catches <= 4; catches++) {
+            Tower x = new Tower();
+            int closes = throwing(x, ZERO, 6);
+            int inner = x.node(USING, NONE, x.node(THROW, RING, 5, 0), closes);
+            for (int k = 0; k < catches; k++) {
+                inner = caught(x, x.node(THROW, ROOT, k, 0), ROOT, inner);
+            }
+            x.body(0, inner);
+            Check.same("run()", x.run(), 1);
+            Check.same("ofRun(2)", x.ofRun(2), catches);
+            Check.same("ofRun(8)", x.ofRun(8), 1);
+            for (int e = 0; e < catches; e++) {
+                exception(x, e, ROOT, catches - 1 - e, NONE, 0, 1);
+            }
+            exception(x, catches, RING, 5, NONE, 1, 1);
+            exception(x, catches + 1, ZERO, 6, NONE, 0, 2);
+            Check.same("suppressed(..)", x.suppressed(catches, 0), catches + 1);
+        }
+    }
+
+    private static void opensAndClosesGiveNothing() {
+        Check.about("section 2, USING: what it CALLS gives is held by no VARIABLE");
+        for (int number = 2; number <= 12; number++) {
+            Tower x = new Tower();
+            int p = x.procedure(0);
+            x.body(p, x.node(RETURN, 0, 7, 0));
+            while (x.many(2) < number - 1) {
+                print(x, 0);
+            }
+            int using = x.node(USING, p, x.node(SET, 9, 0, 0), p);
+            Check.same("the USING", using, number);
+            x.body(0, using);
+            Check.same("run()", x.run(), 0);
+            Check.same("ofRun(5)", x.ofRun(5), 3);
+            for (int v = 0; v < 10; v++) {
+                Check.same("held(" + v + ")", x.held(v), 0);
             }
         }
     }
@@ -715,6 +777,22 @@ public final class EdgesOfRunsTest extends Tests {
         Check.same("many(2)", full.many(2), 90);
         full.run();
         trace(full, 0, last);
+        Check.about("section 4, TRACE: whatever the number of the EXCEPTION is, and how many were made ahead of it");
+        for (int before = 28; before <= 39; before++) {
+            Tower y = new Tower();
+            int p = y.procedure(0);
+            int wrap = y.node(WRAP, ROOT, 103, 0);
+            y.body(p, caught(y, y.node(THROW, ROOT, 103, 0), ROOT, wrap));
+            int call = y.node(CALL, 0, p, 0);
+            int small = caught(y, y.node(THROW, RING, 1, 0), ROOT, y.node(ADD, 3, 1, 0));
+            int turns = y.node(LOOP, 4, y.node(SEQ, 0, small, y.node(ADD, 4, -1, 0)), 0);
+            y.body(0, seq(y, y.node(SET, 4, before - 1, 0), turns, call));
+            Check.same("run()", y.run(), 1);
+            Check.same("ofRun(6)", y.ofRun(6), before + 1);
+            exception(y, before - 1, ROOT, before - 1, NONE, 0, 2);
+            exception(y, before, ROOT, before - 1, before - 1, 0, 2);
+            trace(y, before, wrap, call);
+        }
         Check.about("section 4, TRACE: of the CALLS that were under way, not of those before; AGAIN and THROWN leave it");
         Tower x = new Tower();
         int p = printing(x, 1);
